@@ -183,7 +183,7 @@ final class CastingTest {
         checks.part("promise 18, the way between two stays");
         for (int beat = 20; beat <= 25; beat++) {
             int t = beat;
-            for (int place : new int[] {2, 4, 5, 6, 9}) {
+            for (int place : new int[] {2, 3, 4, 5, 6, 7, 9}) {
                 player("out at 20 from place 5, in at beat " + t + " at place " + place, b -> {
                     b.addPuppet(1, 1);
                     b.addPuppet(1, 1);
@@ -219,15 +219,15 @@ final class CastingTest {
     private void order() {
         checks.part("promise 18, the order of the casting");
         Checks.Scene heavyLater = b -> {
-            b.addPuppet(1, 2);
             b.addPuppet(9, 2);
+            b.addPuppet(1, 2);
             b.addPlayer(9, 0);
             b.addPlayer(1, 0);
-            b.enter(1, 30, 0, 0);
-            b.enter(0, 29, 0, 1);
+            b.enter(0, 30, 0, 0);
+            b.enter(1, 29, 0, 1);
         };
-        player("the earlier one is named first", heavyLater, 0, 0, 0);
-        player("the earlier one is named first", heavyLater, 1, 0, -1);
+        player("the earlier one is named first", heavyLater, 0, 0, -1);
+        player("the earlier one is named first", heavyLater, 1, 0, 0);
         Checks.Scene oneBeat = b -> {
             b.addPuppet(9, 2);
             b.addPuppet(1, 2);

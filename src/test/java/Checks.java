@@ -64,8 +64,14 @@ final class Checks {
         try {
             return String.valueOf(call.on(book));
         } catch (RuntimeException e) {
-            return "throws." + e.getClass().getSimpleName();
+            return (isThrownByTheBook(e) ? "throws." : "the machine throws ") + e.getClass().getSimpleName();
         }
+    }
+
+    /** An exception of the library or the machine is wrong even if its name is the one that is due. */
+    private static boolean isThrownByTheBook(RuntimeException e) {
+        StackTraceElement[] trace = e.getStackTrace();
+        return trace.length > 0 && trace[0].getClassName().startsWith("CueBook");
     }
 
     /** All that a book tells, asked of as many new books as it takes. */
@@ -82,7 +88,30 @@ final class Checks {
             }
             told.add(outcome(book, questions.get(i)));
         }
+        CueBook changed = new CueBook();
+        scene.set(changed);
+        for (Call change : changes(first)) {
+            told.add(outcome(changed, change));
+            told.add(outcome(changed, CueBook::digest));
+        }
         return told;
+    }
+
+    /** What is kept inside and not told at once comes to light when more is written and struck out. */
+    private static List<Call> changes(CueBook book) {
+        List<Call> list = new ArrayList<>();
+        for (int i = 0; i < book.count(0); i++) {
+            final int p = i;
+            list.add(b -> b.shift(p, 999, 3));
+        }
+        for (int i = book.count(2) - 1; i >= 0; i--) {
+            final int cue = i;
+            list.add(b -> b.note(cue, 1));
+            list.add(b -> b.strike(cue));
+        }
+        list.add(b -> b.addPuppet(1, 1));
+        list.add(b -> b.addPlayer(1, 1));
+        return list;
     }
 
     private static List<Call> questions(CueBook book) {

@@ -95,6 +95,10 @@ final class RehearsalsTest {
         checks.part("promise 24");
         worst("nothing noted", b -> { }, -1);
         worst("noted to be in time", b -> note(b, 3, 0), 3);
+        worst("the first one", b -> {
+            note(b, 0, -5);
+            note(b, 1, 4);
+        }, 0);
         worst("two in time", b -> {
             note(b, 3, 0);
             note(b, 1, 0, 0);

@@ -52,6 +52,11 @@ final class StageTest {
         row("place(0)", 998, new int[] {0, 0}, (b, t) -> b.place(0, t));
         row("place(1)", 998, new int[] {-1, 19}, (b, t) -> b.place(1, t));
         row("place(2)", 998, new int[] {-1, -1}, (b, t) -> b.place(2, t));
+        checks.answers(b -> {
+            b.addPuppet(1, 1);
+            b.enter(0, 0, 0, 0);
+            b.strike(0);
+        }, "its ENTER at beat 0 struck out: place(0, 0)", b -> b.place(0, 0), -1);
         refused("place", (b, p, t) -> b.place(p, t));
     }
 
