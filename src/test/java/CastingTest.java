@@ -1,29 +1,13 @@
 /** Promises 17 to 21: casting. */
 final class CastingTest {
-    private static final Class<IndexOutOfBoundsException> INDEX = IndexOutOfBoundsException.class;
-    private static final Class<IllegalArgumentException> ARGUMENT = IllegalArgumentException.class;
+    private static final int[] NO_PUPPETS = Checks.outside(0, 2);
+    private static final int[] NO_PUPPETS_OF_FULL = Checks.outside(0, 7);
+    private static final int[] NO_PLAYERS = Checks.outside(0, 1);
+    private static final int[] NO_PLAYERS_OF_FULL = Checks.outside(0, 4);
+    private static final int[] NO_BEATS = Checks.outside(0, 999);
 
-    private final Checks checks = new Checks();
-
-    public static void main(String[] args) {
-        CastingTest test = new CastingTest();
-        test.stays();
-        test.stay();
-        test.strength();
-        test.handsOfAPlayer();
-        test.onePlace();
-        test.firstWay();
-        test.laterWays();
-        test.order();
-        test.changes();
-        test.uncast();
-        test.hands();
-        test.load();
-        test.checks.report("CastingTest");
-    }
-
-    /** Puppet 0 stays 5 to 9 and 9 to 20, puppet 1 from 30 on, puppet 2 never. */
-    private static void scene(CueBook b) {
+    /** Puppet 0 stays 5 to 9 and 9 to 20, puppet 1 from 30 on, too heavy for all, puppet 2 never. */
+    private static final Checks.Scene SCENE = b -> {
         b.addPuppet(3, 1);
         b.addPuppet(9, 2);
         b.addPuppet(1, 1);
@@ -34,233 +18,106 @@ final class CastingTest {
         b.enter(0, 9, 10, 0);
         b.leave(0, 20);
         b.enter(1, 30, 0, 0);
-    }
+    };
 
-    private void player(String what, Checks.Scene scene, int puppet, int stay, int due) {
-        checks.answers(scene, what + ": stay(" + puppet + ", " + stay + ", 2)",
-                b -> b.stay(puppet, stay, 2), due);
+    /** One puppet on stage from beat 0 to beat 999, and one player that holds it. */
+    private static final Checks.Scene ALWAYS_HELD = b -> {
+        b.addPuppet(1, 1);
+        b.addPlayer(1, 0);
+        b.enter(0, 0, 0, 0);
+    };
+
+    private static final Checks.Scene TWENTY_STAYS = b -> {
+        b.addPuppet(1, 1);
+        for (int i = 0; i < 20; i++) {
+            b.enter(0, 2 * i, 0, 0);
+            b.leave(0, 2 * i + 1);
+        }
+    };
+
+    private final Checks checks = new Checks();
+    private final Document doc = new Document(checks);
+
+    public static void main(String[] args) {
+        CastingTest test = new CastingTest();
+        test.stays();
+        test.stay();
+        test.stayOfChanges();
+        test.stayRefused();
+        test.uncast();
+        test.hands();
+        test.handsRefused();
+        test.load();
+        test.doc.end();
+        test.checks.report("CastingTest");
     }
 
     private void stays() {
-        checks.part("promise 17");
+        doc.section("Promise 17: stays");
+        doc.says("- `puppet`: a puppet");
+        checks.answersEach(Scenes.FULL, "of the full book: stays(#)", new int[] {0, 1, 6, 7}, CueBook::stays, 2);
+        doc.says("Returns the number of its stays.");
         int[] due = {2, 1, 0};
         for (int i = 0; i < due.length; i++) {
             int p = i;
-            checks.answers(CastingTest::scene, "stays(" + p + ")", b -> b.stays(p), due[p]);
+            checks.answers(SCENE, "stays(" + p + ")", b -> b.stays(p), due[p]);
         }
-        for (int wrong : new int[] {-1, 3, Integer.MIN_VALUE, Integer.MAX_VALUE}) {
-            checks.refuses(CastingTest::scene, "stays(" + wrong + ")", b -> b.stays(wrong), INDEX);
-        }
+        checks.answers(TWENTY_STAYS, "as many as 40 cues can make: stays(0)", b -> b.stays(0), 20);
+        checks.answers(b -> {
+            b.addPuppet(1, 1);
+            for (int i = 0; i < 20; i++) {
+                b.enter(0, i, 0, 0);
+                b.leave(0, i + 1);
+            }
+        }, "as many, with no beat in between: stays(0)", b -> b.stays(0), 20);
+        checks.answers(SCENE.then(b -> b.strike(4)), "struck out: stays(1)", b -> b.stays(1), 0);
+        doc.says("Throws `IndexOutOfBoundsException` if there is no such puppet");
+        checks.refusesEach(SCENE, "stays(#)", NO_PUPPETS, CueBook::stays, Checks.INDEX);
+        checks.refusesEach(Scenes.FULL, "stays(#)", NO_PUPPETS_OF_FULL, CueBook::stays, Checks.INDEX);
+        checks.refuses(Scenes.EMPTY, "stays(0)", b -> b.stays(0), Checks.INDEX);
     }
+
+    /** What stay() tells of each stay of the scene, by what. */
+    private void told(int what, int first, int second, int third) {
+        checks.answers(SCENE, "stay(0, 0, " + what + ")", b -> b.stay(0, 0, what), first);
+        checks.answers(SCENE, "stay(0, 1, " + what + ")", b -> b.stay(0, 1, what), second);
+        checks.answers(SCENE, "stay(1, 0, " + what + ")", b -> b.stay(1, 0, what), third);
+    }
+
+    /** The player of both stays of each puppet of the full book. */
+    private static final int[] PLAYERS_OF_FULL = {0, 1, 2, 3, -1, -1, -1, -1};
 
     private void stay() {
-        checks.part("promise 18");
-        int[][] due = {{0, 0, 5, 9, 0}, {0, 1, 9, 20, 1}, {1, 0, 30, 1000, -1}};
-        for (int[] row : due) {
-            for (int what = 0; what < 3; what++) {
-                int w = what;
-                checks.answers(CastingTest::scene, "stay(" + row[0] + ", " + row[1] + ", " + w + ")",
-                        b -> b.stay(row[0], row[1], w), row[2 + w]);
-            }
+        doc.section("Promise 18: stay");
+        doc.says("- `puppet`: a puppet");
+        checks.answersEach(Scenes.FULL, "of the full book: stay(#, 0, 0) - 100 * #", new int[] {0, 1, 6, 7},
+                (b, x) -> b.stay(x, 0, 0) - 100 * x, 0);
+        doc.says("- `stay`: the number of a stay, from 0, in ascending order");
+        checks.answersEach(Scenes.FULL, "of the full book: stay(7, #, 0) - 70 * #", new int[] {0, 1},
+                (b, x) -> b.stay(7, x, 0) - 70 * x, 700);
+        for (int stay = 0; stay < 20; stay++) {
+            int s = stay;
+            checks.answers(TWENTY_STAYS, "stay(0, " + s + ", 0)", b -> b.stay(0, s, 0), 2 * s);
         }
+        doc.says("- `what`: 0 its first beat");
+        told(0, 5, 9, 30);
+        doc.says(", 1 the beat behind its last one");
+        told(1, 9, 20, 1000);
+        doc.says(", 2 the player that the casting names for it");
+        told(2, 0, 1, -1);
+        for (int puppet = 0; puppet < 8; puppet++) {
+            int p = puppet;
+            checks.answersEach(Scenes.FULL, "of the full book: stay(" + p + ", #, 2)", new int[] {0, 1},
+                    (b, x) -> b.stay(p, x, 2), PLAYERS_OF_FULL[p]);
+        }
+        doc.says(", -1 for nobody");
+        checks.answers(SCENE, "too heavy for all: stay(1, 0, 2)", b -> b.stay(1, 0, 2), -1);
+        checks.answers(Scenes.ONE_PUPPET.then(b -> b.enter(0, 0, 0, 0)), "no players: stay(0, 0, 2)",
+                b -> b.stay(0, 0, 2), -1);
     }
 
-    private void strength() {
-        checks.part("promise 18, the strength of a player");
-        for (int strength = 5; strength <= 7; strength++) {
-            int s = strength;
-            Checks.Scene one = b -> {
-                b.addPuppet(6, 1);
-                b.addPlayer(s, 0);
-                b.enter(0, 0, 0, 0);
-            };
-            player("weight 6, strength " + s, one, 0, 0, s >= 6 ? 0 : -1);
-        }
-        for (int strength = 6; strength <= 8; strength++) {
-            int s = strength;
-            Checks.Scene two = b -> {
-                b.addPuppet(4, 1);
-                b.addPuppet(3, 1);
-                b.addPlayer(s, 0);
-                b.enter(0, 0, 0, 0);
-                b.enter(1, 50, 0, 1);
-            };
-            player("weights 4 and 3, strength " + s, two, 0, 0, 0);
-            player("weights 4 and 3, strength " + s, two, 1, 0, s >= 7 ? 0 : -1);
-        }
-        player("one behind the other", b -> {
-            b.addPuppet(4, 1);
-            b.addPuppet(3, 1);
-            b.addPlayer(4, 0);
-            b.enter(0, 0, 0, 0);
-            b.leave(0, 50);
-            b.enter(1, 50, 0, 1);
-        }, 1, 0, 0);
-    }
-
-    private void handsOfAPlayer() {
-        checks.part("promise 18, the hands of a player");
-        int[][] due = {{1, 1, 0}, {1, 2, -1}, {2, 1, -1}, {2, 2, -1}};
-        for (int[] row : due) {
-            player("hands " + row[0] + " and " + row[1], b -> {
-                b.addPuppet(1, row[0]);
-                b.addPuppet(1, row[1]);
-                b.addPlayer(20, 0);
-                b.enter(0, 0, 0, 0);
-                b.enter(1, 0, 0, 1);
-            }, 1, 0, row[2]);
-        }
-        Checks.Scene three = b -> {
-            for (int i = 0; i < 3; i++) {
-                b.addPuppet(1, 1);
-            }
-            b.addPlayer(20, 0);
-            b.enter(0, 0, 0, 0);
-            b.enter(1, 10, 0, 1);
-            b.enter(2, 20, 0, 2);
-        };
-        player("a third one", three, 2, 0, -1);
-        player("a third one, when the first is gone", b -> {
-            three.set(b);
-            b.leave(0, 20);
-        }, 2, 0, 0);
-        player("a third one, a beat ahead of that", b -> {
-            three.set(b);
-            b.leave(0, 21);
-        }, 2, 0, -1);
-    }
-
-    private void onePlace() {
-        checks.part("promise 18, all of them at the same place");
-        Checks.Scene two = b -> {
-            b.addPuppet(1, 1);
-            b.addPuppet(1, 1);
-            b.addPlayer(20, 0);
-            b.enter(0, 10, 5, 0);
-            b.enter(1, 20, 5, 3);
-        };
-        player("the same place, another track", two, 1, 0, 0);
-        player("they walk together", b -> {
-            two.set(b);
-            b.move(0, 30, 0);
-            b.move(1, 30, 0);
-        }, 1, 0, 0);
-        player("one walks away", b -> {
-            two.set(b);
-            b.move(0, 30, 6);
-        }, 1, 0, -1);
-        player("one walks away in the last beat", b -> {
-            two.set(b);
-            b.move(1, 998, 4);
-        }, 1, 0, -1);
-        player("one walks away, when the other has left", b -> {
-            two.set(b);
-            b.leave(0, 31);
-            b.move(1, 30, 6);
-        }, 1, 0, 0);
-        player("one walks away a beat ahead of that", b -> {
-            two.set(b);
-            b.leave(0, 32);
-            b.move(1, 30, 6);
-        }, 1, 0, -1);
-    }
-
-    private void firstWay() {
-        checks.part("promise 18, the way from its own place at first");
-        for (int beat = 0; beat <= 8; beat++) {
-            int t = beat;
-            for (int home : new int[] {5, 11, 12, 19}) {
-                player("in at beat " + t + " at place 12, the player at " + home, b -> {
-                    b.addPuppet(1, 1);
-                    b.addPlayer(1, home);
-                    b.enter(0, t, 12, 0);
-                }, 0, 0, Math.abs(home - 12) <= t ? 0 : -1);
-            }
-        }
-    }
-
-    private void laterWays() {
-        checks.part("promise 18, the way between two stays");
-        for (int beat = 20; beat <= 25; beat++) {
-            int t = beat;
-            for (int place : new int[] {2, 3, 4, 5, 6, 7, 9}) {
-                player("out at 20 from place 5, in at beat " + t + " at place " + place, b -> {
-                    b.addPuppet(1, 1);
-                    b.addPuppet(1, 1);
-                    b.addPlayer(1, 0);
-                    b.enter(0, 5, 5, 0);
-                    b.leave(0, 20);
-                    b.enter(1, t, place, 0);
-                }, 1, 0, Math.abs(place - 5) <= t - 19 ? 0 : -1);
-            }
-        }
-        Checks.Scene walks = b -> {
-            b.addPuppet(1, 1);
-            b.addPuppet(1, 1);
-            b.addPlayer(1, 0);
-            b.enter(0, 0, 0, 0);
-            b.move(0, 5, 10);
-            b.leave(0, 20);
-        };
-        player("it walks with its puppet", b -> {
-            walks.set(b);
-            b.enter(1, 21, 12, 0);
-        }, 1, 0, 0);
-        player("it walks with its puppet, and not farther", b -> {
-            walks.set(b);
-            b.enter(1, 21, 13, 0);
-        }, 1, 0, -1);
-        player("it has not stayed at its own place at first", b -> {
-            walks.set(b);
-            b.enter(1, 21, 0, 0);
-        }, 1, 0, -1);
-    }
-
-    private void order() {
-        checks.part("promise 18, the order of the casting");
-        Checks.Scene heavyLater = b -> {
-            b.addPuppet(9, 2);
-            b.addPuppet(1, 2);
-            b.addPlayer(9, 0);
-            b.addPlayer(1, 0);
-            b.enter(0, 30, 0, 0);
-            b.enter(1, 29, 0, 1);
-        };
-        player("the earlier one is named first", heavyLater, 0, 0, -1);
-        player("the earlier one is named first", heavyLater, 1, 0, 0);
-        Checks.Scene oneBeat = b -> {
-            b.addPuppet(9, 2);
-            b.addPuppet(1, 2);
-            b.addPlayer(9, 0);
-            b.addPlayer(1, 0);
-            b.enter(1, 30, 0, 0);
-            b.enter(0, 30, 0, 1);
-        };
-        player("of the same beat the smaller number", oneBeat, 0, 0, 0);
-        player("of the same beat the smaller number", oneBeat, 1, 0, 1);
-        Checks.Scene many = b -> {
-            b.addPlayer(1, 19);
-            for (int i = 0; i < 4; i++) {
-                b.addPlayer(20, 0);
-            }
-            for (int i = 0; i < 6; i++) {
-                b.addPuppet(2, 2);
-                b.enter(i, 0, 0, 0);
-            }
-        };
-        int[] due = {1, 2, 3, 4, -1, -1};
-        for (int i = 0; i < due.length; i++) {
-            player("the smallest number that can", many, i, 0, due[i]);
-        }
-        player("nobody's stay is in nobody's way", b -> {
-            many.set(b);
-            b.leave(0, 100);
-            b.enter(0, 101, 0, 0);
-        }, 0, 1, 1);
-    }
-
-    private void changes() {
-        checks.part("promise 18, the casting is anew behind a change");
+    private void stayOfChanges() {
+        doc.says("Returns this.");
         Checks.Scene asked = b -> {
             b.addPuppet(1, 2);
             b.addPuppet(1, 2);
@@ -269,42 +126,54 @@ final class CastingTest {
             b.enter(1, 50, 0, 0);
             b.uncast();
         };
-        player("as it was", asked, 1, 0, -1);
-        player("a LEAVE written", b -> {
-            asked.set(b);
-            b.leave(0, 50);
-        }, 1, 0, 0);
-        player("an ENTER struck out", b -> {
-            asked.set(b);
-            b.strike(0);
-        }, 1, 0, 0);
-        player("a player added", b -> {
-            asked.set(b);
-            b.addPlayer(1, 0);
-        }, 1, 0, 1);
-        player("a MOVE written", b -> {
-            asked.set(b);
+        player("as it was", asked, -1);
+        player("a LEAVE written", asked.then(b -> b.leave(0, 50)), 0);
+        player("an ENTER struck out", asked.then(b -> b.strike(0)), 0);
+        player("a player added", asked.then(b -> b.addPlayer(1, 0)), 1);
+        player("a MOVE written", asked.then(b -> {
             b.leave(0, 50);
             b.uncast();
             b.move(0, 10, 5);
-        }, 1, 0, -1);
-        for (int wrong : new int[] {-1, 3, Integer.MIN_VALUE, Integer.MAX_VALUE}) {
-            checks.refuses(CastingTest::scene, "stay(" + wrong + ", 0, 0)", b -> b.stay(wrong, 0, 0), INDEX);
-            checks.refuses(CastingTest::scene, "stay(0, 0, " + wrong + ")", b -> b.stay(0, 0, wrong), INDEX);
-        }
-        for (int wrong : new int[] {-1, 2, Integer.MIN_VALUE, Integer.MAX_VALUE}) {
-            checks.refuses(CastingTest::scene, "stay(0, " + wrong + ", 0)", b -> b.stay(0, wrong, 0), INDEX);
-        }
-        checks.refuses(CastingTest::scene, "no stay at all: stay(2, 0, 0)", b -> b.stay(2, 0, 0), INDEX);
+        }), -1);
+        player("and struck out again", asked.then(b -> {
+            b.leave(0, 50);
+            b.move(0, 10, 5);
+            b.uncast();
+            b.strike(3);
+        }), 0);
+    }
+
+    private void player(String what, Checks.Scene scene, int due) {
+        checks.answers(scene, what + ": stay(1, 0, 2)", b -> b.stay(1, 0, 2), due);
+    }
+
+    private void stayRefused() {
+        doc.says("Throws `IndexOutOfBoundsException` if there is no such puppet");
+        checks.refusesEach(SCENE, "stay(#, 0, 0)", NO_PUPPETS, (b, x) -> b.stay(x, 0, 0), Checks.INDEX);
+        checks.refusesEach(Scenes.FULL, "stay(#, 0, 0)", NO_PUPPETS_OF_FULL,
+                (b, x) -> b.stay(x, 0, 0), Checks.INDEX);
+        checks.refuses(Scenes.EMPTY, "stay(0, 0, 0)", b -> b.stay(0, 0, 0), Checks.INDEX);
+        doc.says(" or stay");
+        checks.refusesEach(TWENTY_STAYS, "stay(0, #, 0)", Checks.outside(0, 19),
+                (b, x) -> b.stay(0, x, 0), Checks.INDEX);
+        checks.refusesEach(SCENE, "stay(0, #, 0)", Checks.outside(0, 1), (b, x) -> b.stay(0, x, 0), Checks.INDEX);
+        checks.refusesEach(SCENE, "stay(1, #, 0)", Checks.outside(0, 0), (b, x) -> b.stay(1, x, 0), Checks.INDEX);
+        checks.refusesEach(SCENE, "none at all: stay(2, #, 0)", new int[] {-1, 0, 1},
+                (b, x) -> b.stay(2, x, 0), Checks.INDEX);
+        doc.says(", or what is not 0 to 2");
+        checks.refusesEach(SCENE, "stay(0, 0, #)", Checks.outside(0, 2), (b, x) -> b.stay(0, 0, x), Checks.INDEX);
+        checks.refuses(SCENE, "no such stay, either: stay(2, 0, 3)", b -> b.stay(2, 0, 3), Checks.INDEX);
     }
 
     private void uncast() {
-        checks.part("promise 19");
-        checks.answers(CastingTest::scene, "uncast()", CueBook::uncast, 1);
-        checks.answers(b -> {
-            scene(b);
-            b.strike(4);
-        }, "the stay struck out: uncast()", CueBook::uncast, 0);
+        doc.section("Promise 19: uncast");
+        doc.says("Returns the number of stays for which the casting names nobody.");
+        checks.answers(SCENE, "uncast()", CueBook::uncast, 1);
+        checks.answers(Scenes.FULL, "of the full book: uncast()", CueBook::uncast, 8);
+        checks.answers(Scenes.EMPTY, "of the empty book: uncast()", CueBook::uncast, 0);
+        checks.answers(Scenes.ONE_PUPPET, "no stays: uncast()", CueBook::uncast, 0);
+        checks.answers(ALWAYS_HELD, "all have a player: uncast()", CueBook::uncast, 0);
+        checks.answers(SCENE.then(b -> b.strike(4)), "the stay struck out: uncast()", CueBook::uncast, 0);
         checks.answers(b -> {
             b.addPuppet(1, 1);
             b.addPuppet(1, 1);
@@ -313,44 +182,70 @@ final class CastingTest {
             b.enter(0, 5, 0, 0);
             b.enter(1, 0, 0, 0);
         }, "no players: uncast()", CueBook::uncast, 3);
-        checks.answers(b -> b.addPuppet(1, 1), "no stays: uncast()", CueBook::uncast, 0);
     }
 
     private void hands() {
-        checks.part("promise 20");
+        doc.section("Promise 20: hands");
+        doc.says("- `player`: a player");
+        for (int player = 0; player < 5; player++) {
+            int p = player;
+            checks.answers(Scenes.FULL, "of the full book: hands(" + p + ", 999)", b -> b.hands(p, 999),
+                    p < 4 ? 1 << p : 0);
+        }
+        doc.says("- `beat`: a beat");
+        checks.answersEach(ALWAYS_HELD, "hands(0, #)", new int[] {0, 1, 998, 999}, (b, x) -> b.hands(0, x), 1);
+        doc.says("Returns the set of the puppets that it has in its hands at this beat, by the casting.");
         int[][] due = {{0, 0}, {4, 0}, {5, 1}, {8, 1}, {9, 0}, {20, 0}, {30, 0}, {999, 0}};
         for (int[] row : due) {
-            checks.answers(CastingTest::scene, "hands(0, " + row[0] + ")", b -> b.hands(0, row[0]), row[1]);
+            checks.answers(SCENE, "hands(0, " + row[0] + ")", b -> b.hands(0, row[0]), row[1]);
         }
         int[][] other = {{8, 0}, {9, 1}, {19, 1}, {20, 0}, {999, 0}};
         for (int[] row : other) {
-            checks.answers(CastingTest::scene, "hands(1, " + row[0] + ")", b -> b.hands(1, row[0]), row[1]);
+            checks.answers(SCENE, "hands(1, " + row[0] + ")", b -> b.hands(1, row[0]), row[1]);
         }
-        Checks.Scene two = b -> {
-            scene(b);
-            b.enter(2, 9, 10, 3);
-        };
-        checks.answers(two, "both hands full: hands(1, 9)", b -> b.hands(1, 9), 5);
+        Checks.Scene two = SCENE.then(b -> b.enter(2, 9, 10, 3));
+        checks.answers(two, "two at once: hands(1, 9)", b -> b.hands(1, 9), 5);
+        checks.answers(two, "two at once: hands(1, 19)", b -> b.hands(1, 19), 5);
+        checks.answers(two, "one of them left: hands(1, 20)", b -> b.hands(1, 20), 4);
         checks.answers(two, "hands(1, 999)", b -> b.hands(1, 999), 4);
         checks.answers(b -> {
             for (int i = 0; i < 8; i++) {
                 b.addPuppet(1, 1);
             }
-            b.addPlayer(1, 0);
+            b.addPlayer(2, 0);
             b.enter(7, 0, 0, 0);
-        }, "the last puppet: hands(0, 0)", b -> b.hands(0, 0), 128);
-        for (int wrong : new int[] {-1, 2, Integer.MIN_VALUE, Integer.MAX_VALUE}) {
-            checks.refuses(CastingTest::scene, "hands(" + wrong + ", -1)", b -> b.hands(wrong, -1), INDEX);
-        }
-        for (int wrong : new int[] {-1, 1000, Integer.MIN_VALUE, Integer.MAX_VALUE}) {
-            checks.refuses(CastingTest::scene, "hands(0, " + wrong + ")", b -> b.hands(0, wrong), ARGUMENT);
-        }
+            b.enter(6, 0, 0, 1);
+        }, "the last puppets: hands(0, 0)", b -> b.hands(0, 0), 128 + 64);
+        checks.answersEach(Scenes.FIVE_PLAYERS, "no puppets: hands(#, 0)", new int[] {0, 4},
+                (b, x) -> b.hands(x, 0), 0);
+        checks.answers(ALWAYS_HELD.then(b -> {
+            b.uncast();
+            b.strike(0);
+        }), "its stay struck out: hands(0, 0)", b -> b.hands(0, 0), 0);
+    }
+
+    private void handsRefused() {
+        doc.says("Throws `IndexOutOfBoundsException` if there is no such player");
+        checks.refusesEach(SCENE, "hands(#, 0)", NO_PLAYERS, (b, x) -> b.hands(x, 0), Checks.INDEX);
+        checks.refusesEach(SCENE, "hands(#, -1)", NO_PLAYERS, (b, x) -> b.hands(x, -1), Checks.INDEX);
+        checks.refusesEach(Scenes.FULL, "hands(#, 0)", NO_PLAYERS_OF_FULL, (b, x) -> b.hands(x, 0), Checks.INDEX);
+        checks.refuses(Scenes.EMPTY, "hands(0, 0)", b -> b.hands(0, 0), Checks.INDEX);
+        doc.says("Throws `IllegalArgumentException` if beat is not 0 to 999");
+        checks.refusesEach(SCENE, "hands(0, #)", NO_BEATS, (b, x) -> b.hands(0, x), Checks.ARGUMENT);
+        checks.refusesEach(Scenes.FULL, "hands(4, #)", NO_BEATS, (b, x) -> b.hands(4, x), Checks.ARGUMENT);
     }
 
     private void load() {
-        checks.part("promise 21");
-        checks.answers(CastingTest::scene, "load(0)", b -> b.load(0), 4);
-        checks.answers(CastingTest::scene, "load(1)", b -> b.load(1), 11);
+        doc.section("Promise 21: load");
+        doc.says("- `player`: a player");
+        int[] ofFull = {990, 890, 790, 690, 0};
+        for (int player = 0; player < 5; player++) {
+            int p = player;
+            checks.answers(Scenes.FULL, "of the full book: load(" + p + ")", b -> b.load(p), ofFull[p]);
+        }
+        doc.says("Returns on how many beats it has at least one puppet, by the casting.");
+        checks.answers(SCENE, "load(0)", b -> b.load(0), 4);
+        checks.answers(SCENE, "load(1)", b -> b.load(1), 11);
         checks.answers(b -> {
             b.addPuppet(1, 1);
             b.addPuppet(1, 1);
@@ -360,13 +255,20 @@ final class CastingTest {
             b.enter(1, 5, 0, 1);
             b.leave(1, 20);
         }, "a beat with two puppets counts once: load(0)", b -> b.load(0), 20);
+        checks.answers(ALWAYS_HELD, "all the time: load(0)", b -> b.load(0), 1000);
         checks.answers(b -> {
             b.addPuppet(1, 1);
             b.addPlayer(1, 0);
-            b.enter(0, 0, 0, 0);
-        }, "all the time: load(0)", b -> b.load(0), 1000);
-        for (int wrong : new int[] {-1, 2, Integer.MIN_VALUE, Integer.MAX_VALUE}) {
-            checks.refuses(CastingTest::scene, "load(" + wrong + ")", b -> b.load(wrong), INDEX);
-        }
+            b.enter(0, 999, 0, 0);
+        }, "the last beat: load(0)", b -> b.load(0), 1);
+        checks.answersEach(Scenes.FIVE_PLAYERS, "no puppets: load(#)", new int[] {0, 4}, CueBook::load, 0);
+        checks.answers(ALWAYS_HELD.then(b -> {
+            b.uncast();
+            b.strike(0);
+        }), "its stay struck out: load(0)", b -> b.load(0), 0);
+        doc.says("Throws `IndexOutOfBoundsException` if there is no such player");
+        checks.refusesEach(SCENE, "load(#)", NO_PLAYERS, CueBook::load, Checks.INDEX);
+        checks.refusesEach(Scenes.FULL, "load(#)", NO_PLAYERS_OF_FULL, CueBook::load, Checks.INDEX);
+        checks.refuses(Scenes.EMPTY, "load(0)", b -> b.load(0), Checks.INDEX);
     }
 }

@@ -1,5 +1,7 @@
 import java.util.ArrayList;
+import java.util.IdentityHashMap;
 import java.util.List;
+import java.util.Map;
 
 /** Counts what was checked and what was wrong; every test of the project ends with report(). */
 final class Checks {
@@ -8,20 +10,47 @@ final class Checks {
         Object on(CueBook book);
     }
 
+    /** A call with one argument that is tried with several values. */
+    interface CallWith {
+        Object on(CueBook book, int x);
+    }
+
     /** Calls that bring a new book to where a test begins. */
     interface Scene {
         void set(CueBook book);
+
+        default Scene then(Scene more) {
+            return book -> {
+                set(book);
+                more.set(book);
+            };
+        }
     }
 
+    static final Class<IndexOutOfBoundsException> INDEX = IndexOutOfBoundsException.class;
+    static final Class<IllegalArgumentException> ARGUMENT = IllegalArgumentException.class;
+    static final Class<IllegalStateException> STATE = IllegalStateException.class;
+
     /** The document promises nothing behind an object's 512th call: a picture stays below it. */
-    private static final int CALLS_OF_A_BOOK = 400;
+    private static final int CALLS_OF_A_BOOK = 300;
 
     private int made = 0;
     private int wrong = 0;
     private String part = "";
+    /** What a scene tells is the same each time, and dear to ask for. */
+    private final Map<Scene, List<String>> pictures = new IdentityHashMap<>();
 
     void part(String name) {
         part = name;
+    }
+
+    int made() {
+        return made;
+    }
+
+    /** The first values that are not allowed on each side of a range, and the farthest ones. */
+    static int[] outside(int least, int most) {
+        return new int[] {least - 1, most + 1, Integer.MIN_VALUE, Integer.MAX_VALUE};
     }
 
     void same(String what, Object got, Object due) {
@@ -44,17 +73,44 @@ final class Checks {
         CueBook book = new CueBook();
         scene.set(book);
         same(what, outcome(book, call), "throws." + due.getSimpleName());
-        samePictures(what, picture(scene), picture(b -> {
+        samePictures(what, pictures.computeIfAbsent(scene, Checks::picture), picture(b -> {
             scene.set(b);
             outcome(b, call);
         }));
     }
 
+    void throwsSomething(Scene scene, String what, Call call) {
+        CueBook book = new CueBook();
+        scene.set(book);
+        String got = outcome(book, call);
+        same(what + " throws, answering " + got, got.startsWith("throws."), true);
+    }
+
+    /** As answers(), with each of the values at the place of the # of the call's name. */
+    void answersEach(Scene scene, String what, int[] values, CallWith call, Object due) {
+        for (int x : values) {
+            answers(scene, what.replace("#", String.valueOf(x)), b -> call.on(b, x), due);
+        }
+    }
+
+    /** As refuses(), with each of the values at the place of the # of the call's name. */
+    void refusesEach(Scene scene, String what, int[] values, CallWith call,
+            Class<? extends RuntimeException> due) {
+        for (int x : values) {
+            refuses(scene, what.replace("#", String.valueOf(x)), b -> call.on(b, x), due);
+        }
+    }
+
+    /** All that a book tells behind the one scene, it tells behind the other, too. */
+    void sameBooks(String what, Scene one, Scene other) {
+        samePictures(what, pictures.computeIfAbsent(one, Checks::picture), picture(other));
+    }
+
     private void samePictures(String what, List<String> before, List<String> behind) {
-        same(what + ", how much the book tells behind it", behind.size(), before.size());
+        same(what + ": how much the book tells behind it", behind.size(), before.size());
         for (int i = 0; i < Math.min(before.size(), behind.size()); i++) {
             if (!before.get(i).equals(behind.get(i))) {
-                same(what + ", answer " + i + " of the book behind it", behind.get(i), before.get(i));
+                same(what + ": answer " + i + " of the book behind it", behind.get(i), before.get(i));
                 return;
             }
         }

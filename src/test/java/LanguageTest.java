@@ -1,27 +1,24 @@
 import java.io.IOException;
+import java.io.UncheckedIOException;
 import java.lang.management.ManagementFactory;
+import java.lang.reflect.Constructor;
+import java.lang.reflect.Executable;
 import java.lang.reflect.Field;
 import java.lang.reflect.Member;
 import java.lang.reflect.Method;
 import java.lang.reflect.Modifier;
 import java.nio.file.Files;
 import java.nio.file.Path;
+import java.util.ArrayList;
+import java.util.List;
 import java.util.Set;
 import java.util.TreeSet;
+import java.util.regex.Matcher;
 import java.util.regex.Pattern;
 
 /** What of LANGUAGE.md a program can see: the face, the static fields, forbidden words, the room. */
 final class LanguageTest {
     private static final Path SOURCE = Path.of("src", "main", "java", "CueBook.java");
-
-    private static final String[] FACE = {
-        "int addPlayer(int,int)", "int addPuppet(int,int)", "int beats(int)", "int clash(int,int)",
-        "int clashes()", "int count(int)", "int cue(int,int)", "long digest()",
-        "int enter(int,int,int,int)", "int hands(int,int)", "int leave(int,int)", "int load(int)",
-        "double mean(int)", "int move(int,int,int)", "int note(int,int)", "int onStage(int)",
-        "int place(int,int)", "int shift(int,int,int)", "int stay(int,int,int)", "int stays(int)",
-        "int strike(int)", "int track(int,int)", "int uncast()", "int worst()"
-    };
 
     private static final String[] FORBIDDEN = {
         "->", "::", "\\bcatch\\b", "\\bfinally\\b", "\\bassert\\b", "\\bsynchronized\\b", "\\bpackage\\b",
@@ -34,7 +31,7 @@ final class LanguageTest {
 
     private final Checks checks = new Checks();
 
-    public static void main(String[] args) throws IOException {
+    public static void main(String[] args) {
         LanguageTest test = new LanguageTest();
         test.face();
         test.staticFields();
@@ -47,14 +44,16 @@ final class LanguageTest {
         checks.part("rule 1");
         Set<String> publics = new TreeSet<>();
         Set<String> names = new TreeSet<>();
+        for (Constructor<?> constructor : CueBook.class.getConstructors()) {
+            publics.add(signature(constructor, ""));
+        }
         for (Method method : CueBook.class.getDeclaredMethods()) {
             if (Modifier.isPublic(method.getModifiers())) {
-                publics.add(signature(method));
+                publics.add(signature(method, method.getReturnType().getName() + " "));
                 names.add(method.getName());
             }
         }
-        Set<String> due = new TreeSet<>(Set.of(FACE));
-        checks.same("the public methods", publics, due);
+        checks.same("the public methods, and what they throw", publics, faceOfTheDocument());
         for (Method method : CueBook.class.getDeclaredMethods()) {
             if (!Modifier.isPublic(method.getModifiers())) {
                 checks.same(method + " is private", isPrivate(method), true);
@@ -75,14 +74,54 @@ final class LanguageTest {
         return Modifier.isPrivate(member.getModifiers());
     }
 
-    private static String signature(Method method) {
-        StringBuilder text = new StringBuilder();
-        text.append(method.getReturnType().getName()).append(' ').append(method.getName()).append('(');
-        for (Class<?> type : method.getParameterTypes()) {
-            if (text.charAt(text.length() - 1) != '(') text.append(',');
-            text.append(type.getName());
+    private static Set<String> faceOfTheDocument() {
+        Set<String> face = new TreeSet<>();
+        for (String line : Document.textOf("The public face").split("\n")) {
+            if (line.startsWith("    public ")) {
+                String call = line.substring(11, line.length() - 1);
+                face.add(call.replaceAll("([(,] ?\\w+) \\w+(?=[,)])", "$1").replace(", ", ","));
+            }
         }
-        return text.append(')').toString();
+        return face;
+    }
+
+    private static String signature(Executable call, String returned) {
+        StringBuilder text = new StringBuilder(returned).append(call.getName()).append('(');
+        text.append(simpleNames(call.getParameterTypes())).append(')');
+        String thrown = simpleNames(call.getExceptionTypes());
+        return thrown.isEmpty() ? text.toString() : text.append(" throws ").append(thrown).toString();
+    }
+
+    private static String simpleNames(Class<?>[] types) {
+        StringBuilder text = new StringBuilder();
+        for (Class<?> type : types) {
+            if (text.length() > 0) text.append(',');
+            text.append(type.getSimpleName());
+        }
+        return text.toString();
+    }
+
+    /** The public methods behind a comment of the source, ahead of the next comment like it. */
+    static List<String> publicMethodsBelow(String comment) {
+        List<String> names = new ArrayList<>();
+        boolean below = false;
+        for (String line : source().split("\n")) {
+            Matcher method = Pattern.compile("    public \\w+ (\\w+)\\(.*").matcher(line);
+            if (line.startsWith("    // ")) {
+                below = line.trim().equals(comment);
+            } else if (below && method.matches()) {
+                names.add(method.group(1));
+            }
+        }
+        return names;
+    }
+
+    private static String source() {
+        try {
+            return Files.readString(SOURCE);
+        } catch (IOException e) {
+            throw new UncheckedIOException(e);
+        }
     }
 
     private void staticFields() {
@@ -94,9 +133,9 @@ final class LanguageTest {
         }
     }
 
-    private void words() throws IOException {
+    private void words() {
         checks.part("rules 2, 4 and 6");
-        String source = Files.readString(SOURCE);
+        String source = source();
         for (String word : FORBIDDEN) {
             checks.same("a forbidden word, " + word, Pattern.compile(word).matcher(source).find(), false);
         }

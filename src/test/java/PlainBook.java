@@ -3,10 +3,22 @@ import java.util.List;
 
 /**
  * The document once more, as plainly as it can be said and with no thought of cost: the stage is
- * played beat by beat, and each player's whole time is looked at for each stay. RandomRunsTest
- * holds CueBook against it. It shares no line with CueBook.
+ * played beat by beat, and each player's whole time is looked at for each stay. RandomRunsTest and
+ * TermsTest hold CueBook against it. It shares no line with CueBook.
  */
 final class PlainBook {
+    interface Call {
+        Object on(PlainBook book);
+    }
+
+    static String outcome(PlainBook book, Call call) {
+        try {
+            return String.valueOf(call.on(book));
+        } catch (RuntimeException e) {
+            return "throws." + e.getClass().getSimpleName();
+        }
+    }
+
     private static final class Cue {
         int kind;
         int puppet;

@@ -1,12 +1,29 @@
 /** Promises 1 to 10: puppets, players and cues. */
 final class PuppetsPlayersCuesTest {
-    private static final Class<IndexOutOfBoundsException> INDEX = IndexOutOfBoundsException.class;
-    private static final Class<IllegalArgumentException> ARGUMENT = IllegalArgumentException.class;
-    private static final Class<IllegalStateException> STATE = IllegalStateException.class;
+    private static final int[] NO_PUPPETS_OF_WALK = Checks.outside(0, 1);
+    private static final int[] NO_BEATS = Checks.outside(0, 999);
+    private static final int[] NO_PLACES = Checks.outside(0, 19);
+    private static final int[] NO_TRACKS = Checks.outside(0, 3);
 
-    private static final int[] FAR = {Integer.MIN_VALUE, Integer.MAX_VALUE};
+    /** The book has 40 cues, and 39 of them were struck out. */
+    private static final Checks.Scene ALL_BUT_ONE_STRUCK = Scenes.FORTY_CUES.then(b -> {
+        for (int cue = 1; cue < 40; cue++) {
+            b.strike(cue);
+        }
+    });
+
+    private static final Checks.Scene THIRTY_NINE_CUES = b -> {
+        b.addPuppet(1, 1);
+        b.addPuppet(1, 1);
+        b.enter(0, 0, 0, 0);
+        for (int i = 1; i < 39; i++) {
+            b.move(0, i, 0);
+            Checks.outcome(b, c -> c.enter(0, 0, 0, 0));
+        }
+    };
 
     private final Checks checks = new Checks();
+    private final Document doc = new Document(checks);
 
     public static void main(String[] args) {
         PuppetsPlayersCuesTest test = new PuppetsPlayersCuesTest();
@@ -14,64 +31,38 @@ final class PuppetsPlayersCuesTest {
         test.addPuppet();
         test.addPlayer();
         test.enter();
+        test.enterRefused();
         test.move();
-        test.moveEnds();
+        test.moveRefused();
         test.shift();
+        test.shiftRefused();
         test.leave();
-        test.cuesOfOneBeat();
-        test.cuesBehind();
-        test.fullBook();
+        test.leaveRefused();
         test.strike();
         test.strikeRefused();
         test.count();
         test.cue();
+        test.doc.end();
         test.checks.report("PuppetsPlayersCuesTest");
     }
 
-    private static void empty(CueBook b) {
-    }
-
-    /** A puppet that comes in at beat 10, at place 5, walks to place 9 from 12 to 16, leaves at 30. */
-    private static void walk(CueBook b) {
-        b.addPuppet(3, 1);
-        b.addPuppet(3, 1);
-        b.addPlayer(9, 5);
-        b.enter(0, 10, 5, 1);
-        b.move(0, 12, 9);
-        b.leave(0, 30);
-    }
-
-    private static void eightPuppets(CueBook b) {
-        for (int i = 0; i < 8; i++) {
-            b.addPuppet(9, 2);
-        }
-    }
-
-    private static void fivePlayers(CueBook b) {
-        for (int i = 0; i < 5; i++) {
-            b.addPlayer(20, 19);
-        }
-    }
-
-    private static void fortyCues(CueBook b) {
-        b.addPuppet(1, 1);
-        b.enter(0, 0, 0, 0);
-        for (int i = 1; i < 40; i++) {
-            b.shift(0, i, i % 4);
-        }
-    }
-
     private void newObject() {
-        checks.part("promise 1");
-        for (int what = 0; what < 4; what++) {
-            int w = what;
-            checks.answers(PuppetsPlayersCuesTest::empty, "count(" + w + ")", b -> b.count(w), 0);
+        doc.section("Promise 1: A new object");
+        doc.says("Creates a book without puppets, players and cues.");
+        checks.answersEach(Scenes.EMPTY, "count(#)", new int[] {0, 1, 2, 3}, CueBook::count, 0);
+        checks.answersEach(Scenes.EMPTY, "onStage(#)", new int[] {0, 500, 999}, CueBook::onStage, 0);
+        checks.answers(Scenes.EMPTY, "clashes()", CueBook::clashes, 0);
+        checks.answers(Scenes.EMPTY, "uncast()", CueBook::uncast, 0);
+        checks.answers(Scenes.EMPTY, "worst()", CueBook::worst, -1);
+        checks.answers(Scenes.EMPTY, "digest()", CueBook::digest, 277L * 31 * 31 * 31 * 31);
+        Checks.Call[] ofNumberZero = {b -> b.enter(0, 0, 0, 0), b -> b.move(0, 0, 0), b -> b.shift(0, 0, 0),
+            b -> b.leave(0, 0), b -> b.strike(0), b -> b.cue(0, 0), b -> b.place(0, 0), b -> b.track(0, 0),
+            b -> b.clash(0, 1), b -> b.clash(0, 0), b -> b.beats(0), b -> b.stays(0), b -> b.stay(0, 0, 0),
+            b -> b.hands(0, 0), b -> b.load(0), b -> b.note(0, 0), b -> b.mean(0)};
+        for (int i = 0; i < ofNumberZero.length; i++) {
+            checks.refuses(Scenes.EMPTY, "call " + i + " of a number that is not there yet", ofNumberZero[i],
+                    Checks.INDEX);
         }
-        checks.answers(PuppetsPlayersCuesTest::empty, "onStage(0)", b -> b.onStage(0), 0);
-        checks.answers(PuppetsPlayersCuesTest::empty, "clashes()", CueBook::clashes, 0);
-        checks.answers(PuppetsPlayersCuesTest::empty, "uncast()", CueBook::uncast, 0);
-        checks.answers(PuppetsPlayersCuesTest::empty, "worst()", CueBook::worst, -1);
-        checks.refuses(PuppetsPlayersCuesTest::empty, "place(0, 0)", b -> b.place(0, 0), INDEX);
         CueBook first = new CueBook();
         CueBook second = new CueBook();
         first.addPuppet(1, 1);
@@ -79,324 +70,374 @@ final class PuppetsPlayersCuesTest {
     }
 
     private void addPuppet() {
-        checks.part("promise 2");
+        doc.section("Promise 2: addPuppet");
+        doc.says("Adds a puppet.");
+        Checks.Scene more = Scenes.WALK.then(b -> b.addPuppet(9, 2));
+        checks.answers(more, "count(0)", b -> b.count(0), 3);
+        checks.answers(more, "it has no cue: stays(2)", b -> b.stays(2), 0);
+        checks.answers(more, "it is not on stage: place(2, 0)", b -> b.place(2, 0), -1);
+        checks.answers(more, "the others are as they were: place(0, 16)", b -> b.place(0, 16), 9);
+        doc.says("- `weight`: its weight");
+        for (int weight = 1; weight <= 9; weight++) {
+            int w = weight;
+            Checks.Scene held = b -> {
+                b.addPuppet(w, 1);
+                b.addPlayer(w == 1 ? 1 : w - 1, 0);
+                b.addPlayer(w, 0);
+                b.enter(0, 0, 0, 0);
+            };
+            checks.answers(held, "weight " + w + " for a player of less, and one of as much: stay(0, 0, 2)",
+                    b -> b.stay(0, 0, 2), w == 1 ? 0 : 1);
+        }
+        doc.says("- `hands`: how many hands it needs");
+        for (int hands = 1; hands <= 2; hands++) {
+            int h = hands;
+            checks.answers(b -> {
+                b.addPuppet(1, h);
+                b.addPuppet(1, 1);
+                b.addPlayer(20, 0);
+                b.enter(0, 0, 0, 0);
+                b.enter(1, 0, 0, 1);
+            }, h + " hands, and one more puppet: uncast()", CueBook::uncast, h - 1);
+        }
+        doc.says("Returns its number.");
         CueBook book = new CueBook();
         for (int i = 0; i < 8; i++) {
             checks.same("addPuppet", book.addPuppet(i + 1, 1 + i % 2), i);
             checks.same("count(0)", book.count(0), i + 1);
         }
-        checks.answers(PuppetsPlayersCuesTest::empty, "addPuppet(1, 1)", b -> b.addPuppet(1, 1), 0);
-        checks.answers(PuppetsPlayersCuesTest::empty, "addPuppet(9, 2)", b -> b.addPuppet(9, 2), 0);
-        for (int wrong : new int[] {-1, 0, 10, FAR[0], FAR[1]}) {
-            checks.refuses(PuppetsPlayersCuesTest::walk, "addPuppet(" + wrong + ", 1)",
-                    b -> b.addPuppet(wrong, 1), ARGUMENT);
-        }
-        for (int wrong : new int[] {-1, 0, 3, FAR[0], FAR[1]}) {
-            checks.refuses(PuppetsPlayersCuesTest::walk, "addPuppet(1, " + wrong + ")",
-                    b -> b.addPuppet(1, wrong), ARGUMENT);
-        }
-        checks.refuses(PuppetsPlayersCuesTest::eightPuppets, "a ninth", b -> b.addPuppet(1, 1), STATE);
-        checks.refuses(PuppetsPlayersCuesTest::eightPuppets, "a ninth, too light",
-                b -> b.addPuppet(0, 1), ARGUMENT);
-        checks.refuses(PuppetsPlayersCuesTest::eightPuppets, "a ninth with three hands",
-                b -> b.addPuppet(1, 3), ARGUMENT);
+        addPuppetRefused();
+    }
+
+    private void addPuppetRefused() {
+        doc.says("Throws `IllegalArgumentException` if weight is not 1 to 9");
+        checks.answersEach(Scenes.EMPTY, "addPuppet(#, 1)", new int[] {1, 9}, (b, x) -> b.addPuppet(x, 1), 0);
+        checks.refusesEach(Scenes.WALK, "addPuppet(#, 1)", Checks.outside(1, 9),
+                (b, x) -> b.addPuppet(x, 1), Checks.ARGUMENT);
+        doc.says(", or hands is not 1 or 2");
+        checks.answersEach(Scenes.EMPTY, "addPuppet(9, #)", new int[] {1, 2}, (b, x) -> b.addPuppet(9, x), 0);
+        checks.refusesEach(Scenes.WALK, "addPuppet(1, #)", Checks.outside(1, 2),
+                (b, x) -> b.addPuppet(1, x), Checks.ARGUMENT);
+        checks.refuses(Scenes.WALK, "addPuppet(0, 0)", b -> b.addPuppet(0, 0), Checks.ARGUMENT);
+        doc.says("Throws `IllegalStateException` if there are 8 puppets");
+        checks.answers(b -> {
+            for (int i = 0; i < 7; i++) {
+                b.addPuppet(1, 1);
+            }
+        }, "the eighth", b -> b.addPuppet(1, 1), 7);
+        checks.refuses(Scenes.EIGHT_PUPPETS, "the ninth", b -> b.addPuppet(1, 1), Checks.STATE);
+        checks.refuses(Scenes.EIGHT_PUPPETS, "the ninth, too light", b -> b.addPuppet(0, 1), Checks.ARGUMENT);
+        checks.refuses(Scenes.EIGHT_PUPPETS, "the ninth, with three hands", b -> b.addPuppet(1, 3),
+                Checks.ARGUMENT);
     }
 
     private void addPlayer() {
-        checks.part("promise 3");
+        doc.section("Promise 3: addPlayer");
+        doc.says("Adds a player.");
+        Checks.Scene more = Scenes.WALK.then(b -> b.addPlayer(9, 0));
+        checks.answers(more, "count(1)", b -> b.count(1), 2);
+        checks.answers(more, "the first one has the stay: load(1)", b -> b.load(1), 0);
+        checks.answers(b -> {
+            b.addPuppet(9, 1);
+            b.enter(0, 40, 0, 0);
+            b.uncast();
+            b.addPlayer(9, 0);
+        }, "it is in the casting at once: uncast()", CueBook::uncast, 0);
+        doc.says("- `strength`: its strength");
+        for (int strength : new int[] {1, 8, 9, 20}) {
+            checks.answers(b -> {
+                b.addPlayer(strength, 0);
+                b.addPuppet(9, 1);
+                b.enter(0, 0, 0, 0);
+            }, "strength " + strength + ", weight 9: uncast()", CueBook::uncast, strength >= 9 ? 0 : 1);
+        }
+        doc.says("- `place`: its place at first");
+        for (int place = 0; place < 20; place++) {
+            int home = place;
+            checks.answers(b -> {
+                b.addPlayer(1, home == 19 ? 18 : home + 1);
+                b.addPlayer(1, home);
+                b.addPuppet(1, 1);
+                b.enter(0, 0, home, 0);
+            }, "next to place " + place + ", and there: stay(0, 0, 2)", b -> b.stay(0, 0, 2), 1);
+        }
+        doc.says("Returns its number.");
         CueBook book = new CueBook();
         for (int i = 0; i < 5; i++) {
             checks.same("addPlayer", book.addPlayer(1 + i, i), i);
             checks.same("count(1)", book.count(1), i + 1);
         }
-        checks.answers(PuppetsPlayersCuesTest::empty, "addPlayer(1, 0)", b -> b.addPlayer(1, 0), 0);
-        checks.answers(PuppetsPlayersCuesTest::empty, "addPlayer(20, 19)", b -> b.addPlayer(20, 19), 0);
-        for (int wrong : new int[] {-1, 0, 21, FAR[0], FAR[1]}) {
-            checks.refuses(PuppetsPlayersCuesTest::walk, "addPlayer(" + wrong + ", 0)",
-                    b -> b.addPlayer(wrong, 0), ARGUMENT);
-        }
-        for (int wrong : new int[] {-1, 20, FAR[0], FAR[1]}) {
-            checks.refuses(PuppetsPlayersCuesTest::walk, "addPlayer(1, " + wrong + ")",
-                    b -> b.addPlayer(1, wrong), ARGUMENT);
-        }
-        checks.refuses(PuppetsPlayersCuesTest::fivePlayers, "a sixth", b -> b.addPlayer(1, 0), STATE);
-        checks.refuses(PuppetsPlayersCuesTest::fivePlayers, "a sixth, too weak",
-                b -> b.addPlayer(0, 0), ARGUMENT);
-        checks.refuses(PuppetsPlayersCuesTest::fivePlayers, "a sixth, off the stage",
-                b -> b.addPlayer(1, 20), ARGUMENT);
+        addPlayerRefused();
+    }
+
+    private void addPlayerRefused() {
+        doc.says("Throws `IllegalArgumentException` if strength is not 1 to 20");
+        checks.answersEach(Scenes.EMPTY, "addPlayer(#, 19)", new int[] {1, 20}, (b, x) -> b.addPlayer(x, 19), 0);
+        checks.refusesEach(Scenes.WALK, "addPlayer(#, 0)", Checks.outside(1, 20),
+                (b, x) -> b.addPlayer(x, 0), Checks.ARGUMENT);
+        doc.says(", or place is not 0 to 19");
+        checks.answersEach(Scenes.EMPTY, "addPlayer(20, #)", new int[] {0, 19}, (b, x) -> b.addPlayer(20, x), 0);
+        checks.refusesEach(Scenes.WALK, "addPlayer(1, #)", NO_PLACES,
+                (b, x) -> b.addPlayer(1, x), Checks.ARGUMENT);
+        checks.refuses(Scenes.WALK, "addPlayer(0, 20)", b -> b.addPlayer(0, 20), Checks.ARGUMENT);
+        doc.says("Throws `IllegalStateException` if there are 5 players");
         checks.answers(b -> {
-            walk(b);
-            b.addPuppet(9, 1);
-            b.enter(2, 40, 0, 0);
-            b.uncast();
-            b.addPlayer(9, 0);
-        }, "a new player is in the casting at once: uncast()", CueBook::uncast, 0);
+            for (int i = 0; i < 4; i++) {
+                b.addPlayer(1, 0);
+            }
+        }, "the fifth", b -> b.addPlayer(1, 0), 4);
+        checks.refuses(Scenes.FIVE_PLAYERS, "the sixth", b -> b.addPlayer(1, 0), Checks.STATE);
+        checks.refuses(Scenes.FIVE_PLAYERS, "the sixth, too weak", b -> b.addPlayer(0, 0), Checks.ARGUMENT);
+        checks.refuses(Scenes.FIVE_PLAYERS, "the sixth, off the stage", b -> b.addPlayer(1, 20), Checks.ARGUMENT);
     }
 
     private void enter() {
-        checks.part("promise 4");
-        CueBook book = new CueBook();
-        book.addPuppet(1, 1);
-        book.addPuppet(1, 1);
-        checks.same("enter(0, 0, 0, 0)", book.enter(0, 0, 0, 0), 0);
-        checks.same("enter(1, 999, 19, 3)", book.enter(1, 999, 19, 3), 1);
-        checks.same("place(0, 0)", book.place(0, 0), 0);
-        checks.same("place(1, 998)", book.place(1, 998), -1);
-        checks.same("place(1, 999)", book.place(1, 999), 19);
-        checks.same("track(1, 999)", book.track(1, 999), 3);
-        for (int wrong : new int[] {-1, 2, FAR[0], FAR[1]}) {
-            checks.refuses(PuppetsPlayersCuesTest::walk, "enter(" + wrong + ", -1, 20, 4)",
-                    b -> b.enter(wrong, -1, 20, 4), INDEX);
-        }
-        for (int wrong : new int[] {-1, 1000, FAR[0], FAR[1]}) {
-            checks.refuses(PuppetsPlayersCuesTest::walk, "enter(0, " + wrong + ", 0, 0)",
-                    b -> b.enter(0, wrong, 0, 0), ARGUMENT);
-        }
-        for (int wrong : new int[] {-1, 20, FAR[0], FAR[1]}) {
-            checks.refuses(PuppetsPlayersCuesTest::walk, "enter(0, 15, " + wrong + ", 0)",
-                    b -> b.enter(0, 15, wrong, 0), ARGUMENT);
-        }
-        for (int wrong : new int[] {-1, 4, FAR[0], FAR[1]}) {
-            checks.refuses(PuppetsPlayersCuesTest::walk, "enter(0, 15, 0, " + wrong + ")",
-                    b -> b.enter(0, 15, 0, wrong), ARGUMENT);
-        }
-        for (int beat : new int[] {10, 15, 29}) {
-            checks.refuses(PuppetsPlayersCuesTest::walk, "on stage already: enter(0, " + beat + ", 0, 0)",
-                    b -> b.enter(0, beat, 0, 0), STATE);
-        }
-        checks.refuses(PuppetsPlayersCuesTest::walk, "ahead of another ENTER: enter(0, 0, 0, 0)",
-                b -> b.enter(0, 0, 0, 0), STATE);
-        checks.refuses(PuppetsPlayersCuesTest::walk, "ahead of another ENTER: enter(0, 9, 0, 0)",
-                b -> b.enter(0, 9, 0, 0), STATE);
-        checks.answers(PuppetsPlayersCuesTest::walk, "at the beat of a LEAVE: enter(0, 30, 0, 0)",
-                b -> b.enter(0, 30, 0, 0), 3);
-        checks.answers(PuppetsPlayersCuesTest::walk, "enter(0, 31, 0, 0)", b -> b.enter(0, 31, 0, 0), 3);
-        checks.answers(PuppetsPlayersCuesTest::walk, "another puppet: enter(1, 15, 0, 0)",
-                b -> b.enter(1, 15, 0, 0), 3);
+        doc.section("Promise 4: enter");
+        doc.says("Writes an ENTER.");
+        Checks.Scene two = b -> {
+            b.addPuppet(1, 1);
+            b.addPuppet(1, 1);
+            b.enter(0, 0, 0, 0);
+            b.enter(1, 999, 19, 3);
+        };
+        checks.answers(two, "count(2)", b -> b.count(2), 2);
+        checks.answers(two, "cue(1, 0)", b -> b.cue(1, 0), 0);
+        doc.says("- `puppet`: the puppet");
+        checks.answersEach(two, "cue(#, 1)", new int[] {0, 1}, (b, x) -> b.cue(x, 1) - x, 0);
+        checks.answers(Scenes.EIGHT_PUPPETS.then(b -> b.enter(7, 5, 1, 1)), "onStage(5)", b -> b.onStage(5), 128);
+        doc.says("- `beat`: the beat");
+        checks.answers(two, "place(0, 0)", b -> b.place(0, 0), 0);
+        checks.answers(two, "place(1, 998)", b -> b.place(1, 998), -1);
+        checks.answers(two, "place(1, 999)", b -> b.place(1, 999), 19);
+        doc.says("- `place`: the place");
+        checks.answersEach(Scenes.ONE_PUPPET, "enter(0, 3, #, 0), place(0, 3) - #", new int[] {0, 1, 18, 19},
+                (b, x) -> b.enter(0, 3, x, 0) + b.place(0, 3) - x, 0);
+        doc.says("- `track`: the track");
+        checks.answersEach(Scenes.ONE_PUPPET, "enter(0, 3, 0, #), track(0, 3) - #", new int[] {0, 1, 2, 3},
+                (b, x) -> b.enter(0, 3, 0, x) + b.track(0, 3) - x, 0);
+        doc.says("Returns the number of the cue.");
+        checks.answers(Scenes.ONE_PUPPET, "enter(0, 0, 0, 0)", b -> b.enter(0, 0, 0, 0), 0);
+        checks.answers(Scenes.WALK, "enter(1, 15, 0, 0)", b -> b.enter(1, 15, 0, 0), 3);
+        checks.answers(THIRTY_NINE_CUES, "enter(1, 0, 0, 0)", b -> b.enter(1, 0, 0, 0), 39);
+    }
+
+    private void enterRefused() {
+        doc.says("Throws `IndexOutOfBoundsException` if there is no such puppet");
+        checks.refusesEach(Scenes.WALK, "enter(#, 40, 0, 0)", NO_PUPPETS_OF_WALK,
+                (b, x) -> b.enter(x, 40, 0, 0), Checks.INDEX);
+        checks.refusesEach(Scenes.WALK, "enter(#, -1, 20, 4)", NO_PUPPETS_OF_WALK,
+                (b, x) -> b.enter(x, -1, 20, 4), Checks.INDEX);
+        checks.refuses(Scenes.EIGHT_PUPPETS, "enter(8, 0, 0, 0)", b -> b.enter(8, 0, 0, 0), Checks.INDEX);
+        doc.says("Throws `IllegalArgumentException` if beat is not 0 to 999");
+        checks.refusesEach(Scenes.WALK, "enter(0, #, 0, 0)", NO_BEATS,
+                (b, x) -> b.enter(0, x, 0, 0), Checks.ARGUMENT);
+        doc.says(", place is not 0 to 19");
+        checks.refusesEach(Scenes.WALK, "enter(0, 40, #, 0)", NO_PLACES,
+                (b, x) -> b.enter(0, 40, x, 0), Checks.ARGUMENT);
+        doc.says(", or track is not 0 to 3");
+        checks.refusesEach(Scenes.WALK, "enter(0, 40, 0, #)", NO_TRACKS,
+                (b, x) -> b.enter(0, 40, 0, x), Checks.ARGUMENT);
+        doc.says("Throws `IllegalStateException` if there are 40 cues");
+        checks.refuses(Scenes.FORTY_CUES, "enter(1, 0, 0, 0)", b -> b.enter(1, 0, 0, 0), Checks.STATE);
+        checks.refuses(ALL_BUT_ONE_STRUCK, "enter(1, 0, 0, 0)", b -> b.enter(1, 0, 0, 0), Checks.STATE);
+        doc.says(", or it would not be right");
+        checks.refusesEach(Scenes.WALK, "on stage already: enter(0, #, 0, 0)", new int[] {10, 15, 29},
+                (b, x) -> b.enter(0, x, 0, 0), Checks.STATE);
+        checks.answersEach(Scenes.WALK, "out again: enter(0, #, 0, 0)", new int[] {30, 31, 999},
+                (b, x) -> b.enter(0, x, 0, 0), 3);
+        doc.says(", or another cue would not be right behind it");
+        checks.refusesEach(Scenes.WALK, "ahead of another ENTER: enter(0, #, 0, 0)", new int[] {0, 9},
+                (b, x) -> b.enter(0, x, 0, 0), Checks.STATE);
+        checks.answers(Scenes.WALK, "the other is of another puppet: enter(1, 9, 0, 0)",
+                b -> b.enter(1, 9, 0, 0), 3);
     }
 
     private void move() {
-        checks.part("promise 5");
-        for (int wrong : new int[] {-1, 2, FAR[0], FAR[1]}) {
-            checks.refuses(PuppetsPlayersCuesTest::walk, "move(" + wrong + ", -1, 20)",
-                    b -> b.move(wrong, -1, 20), INDEX);
-        }
-        for (int wrong : new int[] {-1, 1000, FAR[0], FAR[1]}) {
-            checks.refuses(PuppetsPlayersCuesTest::walk, "move(0, " + wrong + ", 0)",
-                    b -> b.move(0, wrong, 0), ARGUMENT);
-        }
-        for (int wrong : new int[] {-1, 20, FAR[0], FAR[1]}) {
-            checks.refuses(PuppetsPlayersCuesTest::walk, "move(0, 13, " + wrong + ")",
-                    b -> b.move(0, 13, wrong), ARGUMENT);
-        }
-        checks.refuses(PuppetsPlayersCuesTest::walk, "ahead of ENTER: move(0, 9, 5)",
-                b -> b.move(0, 9, 5), STATE);
-        checks.refuses(PuppetsPlayersCuesTest::walk, "behind LEAVE: move(0, 30, 9)",
-                b -> b.move(0, 30, 9), STATE);
-        checks.refuses(PuppetsPlayersCuesTest::walk, "never on stage: move(1, 15, 9)",
-                b -> b.move(1, 15, 9), STATE);
-        for (int beat : new int[] {12, 13, 15}) {
-            checks.refuses(PuppetsPlayersCuesTest::walk, "in a MOVE: move(0, " + beat + ", 9)",
-                    b -> b.move(0, beat, 9), STATE);
-        }
-        checks.answers(PuppetsPlayersCuesTest::walk, "at its end: move(0, 16, 0)", b -> b.move(0, 16, 0), 3);
-        CueBook book = new CueBook();
-        walk(book);
-        checks.same("move(0, 16, 6)", book.move(0, 16, 6), 3);
+        doc.section("Promise 5: move");
+        doc.says("Writes a MOVE.");
+        Checks.Scene more = Scenes.WALK.then(b -> b.move(0, 16, 6));
         int[] places = {5, 5, 5, 6, 7, 8, 9, 8, 7, 6, 6, 6};
         for (int i = 0; i < places.length; i++) {
-            checks.same("place(0, " + (10 + i) + ")", book.place(0, 10 + i), places[i]);
-            checks.same("track(0, " + (10 + i) + ")", book.track(0, 10 + i), 1);
+            int beat = 10 + i;
+            checks.answers(more, "place(0, " + beat + ")", b -> b.place(0, beat), places[i]);
+            checks.answers(more, "track(0, " + beat + ")", b -> b.track(0, beat), 1);
         }
-        checks.same("to where it is: move(0, 19, 6)", book.move(0, 19, 6), 4);
-        checks.same("once more, at the same beat: move(0, 19, 6)", book.move(0, 19, 6), 5);
-        checks.same("place(0, 19)", book.place(0, 19), 6);
-        checks.same("cue(5, 4)", book.cue(5, 4), -1);
+        checks.answers(more, "cue(3, 0)", b -> b.cue(3, 0), 1);
+        doc.says("- `puppet`: the puppet");
+        checks.answers(more, "cue(3, 1)", b -> b.cue(3, 1), 0);
+        checks.answers(Scenes.EIGHT_PUPPETS.then(b -> {
+            b.enter(0, 0, 0, 0);
+            b.enter(7, 0, 0, 0);
+            b.move(7, 0, 3);
+        }), "place(7, 3), and place(0, 3)", b -> 100 * b.place(7, 3) + b.place(0, 3), 300);
+        doc.says("- `beat`: the beat");
+        checks.answers(more, "cue(3, 2)", b -> b.cue(3, 2), 16);
+        checks.answers(Scenes.ONE_PUPPET.then(b -> b.enter(0, 0, 0, 0)), "move(0, 0, 1), place(0, 1)",
+                b -> b.move(0, 0, 1) + b.place(0, 1), 2);
+        doc.says("- `place`: the place");
+        checks.answers(more, "cue(3, 3)", b -> b.cue(3, 3), 6);
+        checks.answersEach(Scenes.WALK, "move(0, 16, #), place(0, 29) - #", new int[] {0, 8, 9, 10, 19},
+                (b, x) -> b.move(0, 16, x) + b.place(0, 29) - x, 3);
+        doc.says("Returns the number of the cue.");
+        checks.answers(Scenes.WALK, "at the end of a MOVE: move(0, 16, 0)", b -> b.move(0, 16, 0), 3);
+        checks.answers(more, "to where it is: move(0, 19, 6)", b -> b.move(0, 19, 6), 4);
+        checks.answers(more.then(b -> b.move(0, 19, 6)), "once more: move(0, 19, 6)", b -> b.move(0, 19, 6), 5);
+        checks.answers(THIRTY_NINE_CUES, "move(0, 50, 1)", b -> b.move(0, 50, 1), 39);
     }
 
-    private void moveEnds() {
-        checks.part("promise 5, the end of a MOVE");
-        Checks.Scene late = b -> {
-            b.addPuppet(1, 1);
-            b.enter(0, 900, 0, 0);
-        };
-        checks.answers(late, "ends at 999: move(0, 980, 19)", b -> b.move(0, 980, 19), 1);
-        checks.refuses(late, "ends at 1000: move(0, 981, 19)", b -> b.move(0, 981, 19), STATE);
-        checks.answers(late, "ends at 999: move(0, 998, 1)", b -> b.move(0, 998, 1), 1);
-        checks.answers(late, "to where it is: move(0, 999, 0)", b -> b.move(0, 999, 0), 1);
-        checks.refuses(late, "ends at 1000: move(0, 999, 1)", b -> b.move(0, 999, 1), STATE);
-        Checks.Scene latest = b -> {
-            late.set(b);
-            b.move(0, 990, 9);
-        };
-        checks.answers(latest, "at its end: leave(0, 999)", b -> b.leave(0, 999), 2);
-        checks.refuses(latest, "ahead of its end: leave(0, 998)", b -> b.leave(0, 998), STATE);
-        checks.answers(latest, "place(0, 999)", b -> b.place(0, 999), 9);
-        checks.answers(latest, "place(0, 998)", b -> b.place(0, 998), 8);
-        checks.refuses(latest, "makes the later MOVE end at 1000: move(0, 950, 19)",
-                b -> b.move(0, 950, 19), STATE);
-        checks.answers(latest, "makes it end at 999: move(0, 950, 18)", b -> b.move(0, 950, 18), 2);
+    private void moveRefused() {
+        doc.says("Throws `IndexOutOfBoundsException` if there is no such puppet");
+        checks.refusesEach(Scenes.WALK, "move(#, 20, 0)", NO_PUPPETS_OF_WALK,
+                (b, x) -> b.move(x, 20, 0), Checks.INDEX);
+        checks.refusesEach(Scenes.WALK, "move(#, -1, 20)", NO_PUPPETS_OF_WALK,
+                (b, x) -> b.move(x, -1, 20), Checks.INDEX);
+        doc.says("Throws `IllegalArgumentException` if beat is not 0 to 999");
+        checks.refusesEach(Scenes.WALK, "move(0, #, 9)", NO_BEATS, (b, x) -> b.move(0, x, 9), Checks.ARGUMENT);
+        doc.says(", or place is not 0 to 19");
+        checks.refusesEach(Scenes.WALK, "move(0, 20, #)", NO_PLACES,
+                (b, x) -> b.move(0, 20, x), Checks.ARGUMENT);
+        doc.says("Throws `IllegalStateException` if there are 40 cues");
+        checks.refuses(Scenes.FORTY_CUES, "move(0, 500, 1)", b -> b.move(0, 500, 1), Checks.STATE);
+        checks.refuses(ALL_BUT_ONE_STRUCK, "move(0, 500, 1)", b -> b.move(0, 500, 1), Checks.STATE);
+        doc.says(", it would not be right");
+        checks.refuses(Scenes.WALK, "ahead of the ENTER: move(0, 9, 5)", b -> b.move(0, 9, 5), Checks.STATE);
+        checks.refuses(Scenes.WALK, "at the LEAVE: move(0, 30, 9)", b -> b.move(0, 30, 9), Checks.STATE);
+        checks.refuses(Scenes.WALK, "never on stage: move(1, 15, 9)", b -> b.move(1, 15, 9), Checks.STATE);
+        checks.refusesEach(Scenes.WALK, "in a MOVE: move(0, #, 9)", new int[] {12, 13, 15},
+                (b, x) -> b.move(0, x, 9), Checks.STATE);
+        Checks.Scene ever = Scenes.ONE_PUPPET.then(b -> b.enter(0, 900, 0, 0));
+        checks.answers(ever, "ends at 999: move(0, 980, 19)", b -> b.move(0, 980, 19), 1);
+        checks.refuses(ever, "ends at 1000: move(0, 981, 19)", b -> b.move(0, 981, 19), Checks.STATE);
+        doc.says(", or another cue would not be right behind it");
+        checks.answers(Scenes.WALK, "the LEAVE comes at its end: move(0, 21, 0)", b -> b.move(0, 21, 0), 3);
+        checks.refuses(Scenes.WALK, "the LEAVE comes ahead of its end: move(0, 22, 0)",
+                b -> b.move(0, 22, 0), Checks.STATE);
+        checks.answers(Scenes.WALK, "the MOVE comes at its end: move(0, 10, 7)", b -> b.move(0, 10, 7), 3);
+        checks.refuses(Scenes.WALK, "the MOVE comes ahead of its end: move(0, 11, 7)",
+                b -> b.move(0, 11, 7), Checks.STATE);
+        Checks.Scene close = Scenes.WALK.then(b -> b.shift(0, 16, 2));
+        checks.answers(close, "the MOVE takes as long: move(0, 10, 5)", b -> b.move(0, 10, 5), 4);
+        checks.refuses(close, "the MOVE takes longer, the SHIFT does not wait: move(0, 10, 4)",
+                b -> b.move(0, 10, 4), Checks.STATE);
     }
 
     private void shift() {
-        checks.part("promise 6");
-        for (int wrong : new int[] {-1, 2, FAR[0], FAR[1]}) {
-            checks.refuses(PuppetsPlayersCuesTest::walk, "shift(" + wrong + ", -1, 4)",
-                    b -> b.shift(wrong, -1, 4), INDEX);
+        doc.section("Promise 6: shift");
+        doc.says("Writes a SHIFT.");
+        Checks.Scene more = Scenes.WALK.then(b -> {
+            b.shift(0, 16, 3);
+            b.shift(0, 10, 0);
+        });
+        int[][] tracks = {{9, -1}, {10, 0}, {15, 0}, {16, 3}, {29, 3}, {30, -1}};
+        for (int[] row : tracks) {
+            checks.answers(more, "track(0, " + row[0] + ")", b -> b.track(0, row[0]), row[1]);
         }
-        for (int wrong : new int[] {-1, 1000, FAR[0], FAR[1]}) {
-            checks.refuses(PuppetsPlayersCuesTest::walk, "shift(0, " + wrong + ", 0)",
-                    b -> b.shift(0, wrong, 0), ARGUMENT);
-        }
-        for (int wrong : new int[] {-1, 4, FAR[0], FAR[1]}) {
-            checks.refuses(PuppetsPlayersCuesTest::walk, "shift(0, 13, " + wrong + ")",
-                    b -> b.shift(0, 13, wrong), ARGUMENT);
-        }
-        for (int beat : new int[] {9, 12, 13, 15, 30, 999}) {
-            checks.refuses(PuppetsPlayersCuesTest::walk, "not right: shift(0, " + beat + ", 2)",
-                    b -> b.shift(0, beat, 2), STATE);
-        }
-        checks.refuses(PuppetsPlayersCuesTest::walk, "never on stage: shift(1, 15, 2)",
-                b -> b.shift(1, 15, 2), STATE);
-        CueBook book = new CueBook();
-        walk(book);
-        checks.same("shift(0, 16, 3)", book.shift(0, 16, 3), 3);
-        checks.same("shift(0, 10, 0)", book.shift(0, 10, 0), 4);
-        checks.same("to where it is: shift(0, 20, 3)", book.shift(0, 20, 3), 5);
-        checks.same("track(0, 9)", book.track(0, 9), -1);
-        checks.same("track(0, 10)", book.track(0, 10), 0);
-        checks.same("track(0, 15)", book.track(0, 15), 0);
-        checks.same("track(0, 16)", book.track(0, 16), 3);
-        checks.same("track(0, 29)", book.track(0, 29), 3);
-        checks.same("place(0, 16)", book.place(0, 16), 9);
-        checks.same("cue(3, 3)", book.cue(3, 3), -1);
+        checks.answers(more, "place(0, 16)", b -> b.place(0, 16), 9);
+        checks.answers(more, "cue(3, 0)", b -> b.cue(3, 0), 2);
+        doc.says("- `puppet`: the puppet");
+        checks.answers(Scenes.EIGHT_PUPPETS.then(b -> {
+            b.enter(0, 0, 0, 0);
+            b.enter(7, 0, 0, 0);
+            b.shift(7, 5, 3);
+        }), "track(7, 5), and track(0, 5)", b -> 100 * b.track(7, 5) + b.track(0, 5), 300);
+        doc.says("- `beat`: the beat");
+        checks.answersEach(more, "cue(#, 2)", new int[] {3, 4}, (b, x) -> b.cue(x, 2) + 6 * x, 34);
+        doc.says("- `track`: the track");
+        checks.answersEach(Scenes.WALK, "shift(0, 20, #), track(0, 20) - #", new int[] {0, 1, 2, 3},
+                (b, x) -> b.shift(0, 20, x) + b.track(0, 20) - x, 3);
+        doc.says("Returns the number of the cue.");
+        checks.answers(Scenes.WALK, "shift(0, 16, 2)", b -> b.shift(0, 16, 2), 3);
+        checks.answers(Scenes.WALK, "to where it is: shift(0, 16, 1)", b -> b.shift(0, 16, 1), 3);
+        checks.answers(THIRTY_NINE_CUES, "shift(0, 999, 3)", b -> b.shift(0, 999, 3), 39);
+    }
+
+    private void shiftRefused() {
+        doc.says("Throws `IndexOutOfBoundsException` if there is no such puppet");
+        checks.refusesEach(Scenes.WALK, "shift(#, 20, 0)", NO_PUPPETS_OF_WALK,
+                (b, x) -> b.shift(x, 20, 0), Checks.INDEX);
+        checks.refusesEach(Scenes.WALK, "shift(#, -1, 4)", NO_PUPPETS_OF_WALK,
+                (b, x) -> b.shift(x, -1, 4), Checks.INDEX);
+        doc.says("Throws `IllegalArgumentException` if beat is not 0 to 999");
+        checks.refusesEach(Scenes.WALK, "shift(0, #, 0)", NO_BEATS,
+                (b, x) -> b.shift(0, x, 0), Checks.ARGUMENT);
+        doc.says(", or track is not 0 to 3");
+        checks.refusesEach(Scenes.WALK, "shift(0, 20, #)", NO_TRACKS,
+                (b, x) -> b.shift(0, 20, x), Checks.ARGUMENT);
+        doc.says("Throws `IllegalStateException` if there are 40 cues");
+        checks.refuses(Scenes.FORTY_CUES, "shift(0, 500, 1)", b -> b.shift(0, 500, 1), Checks.STATE);
+        checks.refuses(ALL_BUT_ONE_STRUCK, "shift(0, 500, 1)", b -> b.shift(0, 500, 1), Checks.STATE);
+        doc.says(", or it would not be right");
+        checks.refusesEach(Scenes.WALK, "shift(0, #, 2)", new int[] {0, 9, 12, 13, 15, 30, 999},
+                (b, x) -> b.shift(0, x, 2), Checks.STATE);
+        checks.answersEach(Scenes.WALK, "shift(0, #, 2)", new int[] {10, 11, 16, 29},
+                (b, x) -> b.shift(0, x, 2), 3);
+        checks.refuses(Scenes.WALK, "never on stage: shift(1, 15, 2)", b -> b.shift(1, 15, 2), Checks.STATE);
+        doc.says(", or another cue would not be right behind it");
+        checks.answersEach(Scenes.WALK, "no cue needs a track, so all others stay right: shift(0, #, 0)",
+                new int[] {10, 11, 16, 29}, (b, x) -> 100 * b.shift(0, x, 0) + b.place(0, 16), 309);
     }
 
     private void leave() {
-        checks.part("promise 7");
-        for (int wrong : new int[] {-1, 2, FAR[0], FAR[1]}) {
-            checks.refuses(PuppetsPlayersCuesTest::walk, "leave(" + wrong + ", -1)",
-                    b -> b.leave(wrong, -1), INDEX);
+        doc.section("Promise 7: leave");
+        doc.says("Writes a LEAVE.");
+        int[][] places = {{29, 9, 1}, {30, -1, -1}, {999, -1, -1}};
+        for (int[] row : places) {
+            checks.answers(Scenes.WALK, "place(0, " + row[0] + ")", b -> b.place(0, row[0]), row[1]);
+            checks.answers(Scenes.WALK, "track(0, " + row[0] + ")", b -> b.track(0, row[0]), row[2]);
         }
-        for (int wrong : new int[] {-1, 1000, FAR[0], FAR[1]}) {
-            checks.refuses(PuppetsPlayersCuesTest::walk, "leave(0, " + wrong + ")",
-                    b -> b.leave(0, wrong), ARGUMENT);
-        }
-        for (int beat : new int[] {9, 10, 11, 12, 15, 16, 20, 30, 31}) {
-            checks.refuses(PuppetsPlayersCuesTest::walk, "not right: leave(0, " + beat + ")",
-                    b -> b.leave(0, beat), STATE);
-        }
-        Checks.Scene entered = b -> {
-            b.addPuppet(1, 1);
-            b.enter(0, 10, 5, 1);
-        };
-        checks.refuses(entered, "at the beat of the ENTER: leave(0, 10)", b -> b.leave(0, 10), STATE);
-        checks.refuses(entered, "ahead of it: leave(0, 9)", b -> b.leave(0, 9), STATE);
-        checks.answers(entered, "a beat later: leave(0, 11)", b -> b.leave(0, 11), 1);
-        checks.answers(entered, "leave(0, 999)", b -> b.leave(0, 999), 1);
-        CueBook book = new CueBook();
-        walk(book);
-        checks.same("place(0, 29)", book.place(0, 29), 9);
-        checks.same("place(0, 30)", book.place(0, 30), -1);
-        checks.same("track(0, 30)", book.track(0, 30), -1);
-        book.enter(0, 40, 7, 2);
-        checks.same("of its second stay: leave(0, 41)", book.leave(0, 41), 4);
-        checks.same("cue(4, 3)", book.cue(4, 3), -1);
-        checks.same("cue(4, 4)", book.cue(4, 4), -1);
-        Checks.Scene again = b -> {
-            walk(b);
-            b.enter(0, 40, 7, 2);
-        };
-        checks.refuses(again, "of the latest ENTER's beat: leave(0, 40)", b -> b.leave(0, 40), STATE);
-    }
-
-    private void cuesOfOneBeat() {
-        checks.part("promises 4 to 7, cues of one beat");
-        Checks.Scene entered = b -> {
-            b.addPuppet(1, 1);
-            b.enter(0, 10, 5, 1);
-            b.shift(0, 20, 2);
-            b.move(0, 20, 7);
-        };
-        checks.answers(entered, "a SHIFT ahead of a MOVE of its beat: track(0, 20)", b -> b.track(0, 20), 2);
-        checks.refuses(entered, "a SHIFT behind a MOVE of its beat: shift(0, 20, 3)",
-                b -> b.shift(0, 20, 3), STATE);
-        Checks.Scene back = b -> {
-            b.addPuppet(1, 1);
-            b.enter(0, 10, 5, 1);
-            b.leave(0, 20);
-            b.enter(0, 20, 0, 3);
-        };
-        checks.answers(back, "out and in: place(0, 20)", b -> b.place(0, 20), 0);
-        checks.answers(back, "out and in: track(0, 20)", b -> b.track(0, 20), 3);
-        checks.answers(back, "out and in: beats(0)", b -> b.beats(0), 990);
-        checks.refuses(back, "a second LEAVE of the beat: leave(0, 20)", b -> b.leave(0, 20), STATE);
-        checks.refuses(back, "strike(1)", b -> b.strike(1), STATE);
-        checks.answers(back, "the last one of a beat tells: track(0, 30)", b -> {
-            b.shift(0, 30, 1);
-            b.shift(0, 30, 0);
-            return b.track(0, 30);
-        }, 0);
-    }
-
-    private void cuesBehind() {
-        checks.part("promises 4 to 7, another cue would not be right behind it");
-        Checks.Scene two = b -> {
-            b.addPuppet(1, 1);
+        checks.answers(Scenes.WALK, "cue(2, 0)", b -> b.cue(2, 0), 3);
+        Checks.Scene in = Scenes.ONE_PUPPET.then(b -> b.enter(0, 10, 5, 1));
+        doc.says("- `puppet`: the puppet");
+        checks.answers(Scenes.EIGHT_PUPPETS.then(b -> {
             b.enter(0, 0, 0, 0);
-            b.move(0, 10, 5);
-            b.move(0, 20, 6);
-            b.shift(0, 21, 1);
-            b.leave(0, 100);
-        };
-        checks.refuses(two, "the next MOVE would take longer: move(0, 15, 4)", b -> b.move(0, 15, 4), STATE);
-        checks.refuses(two, "it would end behind the next one: move(0, 19, 7)", b -> b.move(0, 19, 7), STATE);
-        checks.answers(two, "the next MOVE takes no time: move(0, 19, 6)", b -> b.move(0, 19, 6), 5);
-        checks.answers(two, "the next MOVE turns: move(0, 15, 7)", b -> b.move(0, 15, 7), 5);
-        checks.refuses(two, "cues behind it: leave(0, 50) and another LEAVE", b -> b.leave(0, 50), STATE);
-        checks.refuses(two, "a SHIFT behind it: leave(0, 16)", b -> b.leave(0, 16), STATE);
-        checks.refuses(two, "the LEAVE comes ahead of its end: move(0, 99, 4)",
-                b -> b.move(0, 99, 4), STATE);
-        checks.answers(two, "the LEAVE comes at its end: move(0, 98, 4)", b -> b.move(0, 98, 4), 5);
+            b.enter(7, 0, 0, 0);
+            b.leave(7, 5);
+        }), "onStage(5)", b -> b.onStage(5), 1);
+        doc.says("- `beat`: the beat");
+        checks.answersEach(in, "leave(0, #), beats(0) - #", new int[] {11, 12, 500, 999},
+                (b, x) -> b.leave(0, x) + b.beats(0) - x, 1 - 10);
+        doc.says("Returns the number of the cue.");
+        checks.answers(in, "leave(0, 11)", b -> b.leave(0, 11), 1);
+        checks.answers(Scenes.WALK.then(b -> b.enter(0, 40, 7, 2)), "of its second stay: leave(0, 41)",
+                b -> b.leave(0, 41), 4);
+        checks.answers(THIRTY_NINE_CUES, "leave(0, 999)", b -> b.leave(0, 999), 39);
     }
 
-    private void fullBook() {
-        checks.part("promises 4 to 7, 40 cues");
-        CueBook book = new CueBook();
-        fortyCues(book);
-        checks.same("count(2)", book.count(2), 40);
-        checks.refuses(PuppetsPlayersCuesTest::fortyCues, "move", b -> b.move(0, 500, 1), STATE);
-        checks.refuses(PuppetsPlayersCuesTest::fortyCues, "shift", b -> b.shift(0, 500, 1), STATE);
-        checks.refuses(PuppetsPlayersCuesTest::fortyCues, "leave", b -> b.leave(0, 500), STATE);
-        checks.refuses(b -> {
-            fortyCues(b);
-            b.addPuppet(1, 1);
-        }, "enter", b -> b.enter(1, 0, 0, 0), STATE);
-        checks.refuses(PuppetsPlayersCuesTest::fortyCues, "no such puppet", b -> b.leave(1, 0), INDEX);
-        checks.refuses(PuppetsPlayersCuesTest::fortyCues, "no such track", b -> b.shift(0, 500, 4), ARGUMENT);
-        checks.refuses(b -> {
-            fortyCues(b);
-            b.strike(39);
-        }, "a struck cue counts among the 40", b -> b.shift(0, 500, 1), STATE);
-        checks.answers(b -> {
-            b.addPuppet(1, 1);
-            b.enter(0, 0, 0, 0);
-            for (int i = 0; i < 38; i++) {
-                b.move(0, i, 0);
-            }
-            Checks.outcome(b, c -> c.enter(0, 0, 0, 0));
-        }, "a refused cue does not count", b -> b.leave(0, 999), 39);
+    private void leaveRefused() {
+        doc.says("Throws `IndexOutOfBoundsException` if there is no such puppet");
+        checks.refusesEach(Scenes.WALK, "leave(#, 20)", NO_PUPPETS_OF_WALK,
+                (b, x) -> b.leave(x, 20), Checks.INDEX);
+        checks.refusesEach(Scenes.WALK, "leave(#, -1)", NO_PUPPETS_OF_WALK,
+                (b, x) -> b.leave(x, -1), Checks.INDEX);
+        doc.says("Throws `IllegalArgumentException` if beat is not 0 to 999");
+        checks.refusesEach(Scenes.WALK, "leave(0, #)", NO_BEATS, (b, x) -> b.leave(0, x), Checks.ARGUMENT);
+        doc.says("Throws `IllegalStateException` if there are 40 cues");
+        checks.refuses(Scenes.FORTY_CUES, "leave(0, 500)", b -> b.leave(0, 500), Checks.STATE);
+        checks.refuses(ALL_BUT_ONE_STRUCK, "leave(0, 500)", b -> b.leave(0, 500), Checks.STATE);
+        doc.says(", or it would not be right");
+        checks.refusesEach(Scenes.WALK, "leave(0, #)", new int[] {0, 9, 10, 12, 15, 30, 31, 999},
+                (b, x) -> b.leave(0, x), Checks.STATE);
+        checks.refuses(Scenes.WALK, "never on stage: leave(1, 15)", b -> b.leave(1, 15), Checks.STATE);
+        doc.says(", or another cue would not be right behind it");
+        checks.refusesEach(Scenes.WALK, "another LEAVE behind it: leave(0, #)", new int[] {16, 20, 29},
+                (b, x) -> b.leave(0, x), Checks.STATE);
+        Checks.Scene noLeave = Scenes.WALK.then(b -> {
+            b.strike(2);
+            b.shift(0, 20, 3);
+        });
+        checks.refuses(noLeave, "a MOVE behind it: leave(0, 11)", b -> b.leave(0, 11), Checks.STATE);
+        checks.refuses(noLeave, "a SHIFT behind it: leave(0, 19)", b -> b.leave(0, 19), Checks.STATE);
+        checks.answers(noLeave, "the SHIFT ahead of it: leave(0, 20)", b -> b.leave(0, 20), 4);
     }
 
     private void strike() {
-        checks.part("promise 8");
+        doc.section("Promise 8: strike");
+        doc.says("Strikes a cue out");
         CueBook book = new CueBook();
-        walk(book);
+        Scenes.WALK.set(book);
         book.enter(1, 0, 3, 0);
         checks.same("the MOVE: strike(1)", book.strike(1), 2);
         checks.same("place(0, 16)", book.place(0, 16), 5);
-        checks.same("count(2)", book.count(2), 4);
-        checks.same("count(3)", book.count(3), 1);
         checks.same("the LEAVE: strike(2)", book.strike(2), 1);
         checks.same("place(0, 999)", book.place(0, 999), 5);
         checks.same("stay(0, 0, 1)", book.stay(0, 0, 1), 1000);
@@ -404,22 +445,38 @@ final class PuppetsPlayersCuesTest {
         checks.same("place(0, 500)", book.place(0, 500), -1);
         checks.same("stays(0)", book.stays(0), 0);
         checks.same("onStage(500)", book.onStage(500), 2);
-        checks.same("a number is not used again: enter(0, 0, 0, 0)", book.enter(0, 0, 0, 0), 4);
-        checks.same("the other puppet's: strike(3)", book.strike(3), 0);
-        checks.same("count(3)", book.count(3), 4);
-        for (int wrong : new int[] {-1, 3, FAR[0], FAR[1]}) {
-            checks.refuses(PuppetsPlayersCuesTest::walk, "strike(" + wrong + ")", b -> b.strike(wrong), INDEX);
-        }
-        checks.refuses(PuppetsPlayersCuesTest::empty, "strike(0)", b -> b.strike(0), INDEX);
-        checks.refuses(b -> {
-            walk(b);
-            b.strike(1);
-        }, "once more: strike(1)", b -> b.strike(1), INDEX);
+        checks.answers(Scenes.WALK.then(b -> {
+            b.shift(0, 20, 3);
+            b.strike(3);
+        }), "a SHIFT: track(0, 20)", b -> b.track(0, 20), 1);
+        doc.says("; its number is not used again");
+        checks.same("enter(0, 0, 0, 0)", book.enter(0, 0, 0, 0), 4);
+        checks.answers(Scenes.WALK.then(b -> b.strike(2)), "the latest one: leave(0, 30)", b -> b.leave(0, 30), 3);
+        doc.says(", and it counts among the 40.");
+        checks.answers(ALL_BUT_ONE_STRUCK, "count(2)", b -> b.count(2), 40);
+        checks.answers(ALL_BUT_ONE_STRUCK, "count(3)", b -> b.count(3), 39);
+        checks.refuses(ALL_BUT_ONE_STRUCK, "shift(0, 0, 1)", b -> b.shift(0, 0, 1), Checks.STATE);
+        doc.says("- `cue`: the cue");
+        checks.answers(Scenes.WALK.then(b -> b.strike(1)), "cue(0, 0)", b -> b.cue(0, 0), 0);
+        checks.refuses(Scenes.WALK.then(b -> b.strike(1)), "cue(1, 0)", b -> b.cue(1, 0), Checks.INDEX);
+        doc.says("Returns how many cues of its puppet are left.");
+        checks.answers(Scenes.FULL, "the last cue of the full book: strike(39)", b -> b.strike(39), 4);
+        checks.answers(Scenes.FORTY_CUES, "of 40: strike(1)", b -> b.strike(1), 39);
+        checks.answers(ALL_BUT_ONE_STRUCK, "of 1: strike(0)", b -> b.strike(0), 0);
     }
 
     private void strikeRefused() {
-        checks.part("promise 8, another cue needs it");
-        checks.refuses(PuppetsPlayersCuesTest::walk, "the ENTER: strike(0)", b -> b.strike(0), STATE);
+        doc.says("Throws `IndexOutOfBoundsException` if there is no such cue");
+        checks.refusesEach(Scenes.WALK, "strike(#)", Checks.outside(0, 2), CueBook::strike, Checks.INDEX);
+        checks.refusesEach(Scenes.FORTY_CUES, "strike(#)", Checks.outside(0, 39), CueBook::strike, Checks.INDEX);
+        checks.refuses(Scenes.EMPTY, "strike(0)", b -> b.strike(0), Checks.INDEX);
+        doc.says(", or it was struck out");
+        checks.refuses(Scenes.WALK.then(b -> b.strike(1)), "once more: strike(1)", b -> b.strike(1), Checks.INDEX);
+        checks.refuses(ALL_BUT_ONE_STRUCK, "strike(39)", b -> b.strike(39), Checks.INDEX);
+        doc.says("Throws `IllegalStateException` if another cue would not be right without it");
+        checks.refuses(Scenes.WALK, "the ENTER: strike(0)", b -> b.strike(0), Checks.STATE);
+        checks.refuses(Scenes.WALK.then(b -> b.enter(0, 30, 5, 0)), "the LEAVE ahead of another ENTER: strike(2)",
+                b -> b.strike(2), Checks.STATE);
         Checks.Scene ways = b -> {
             b.addPuppet(1, 1);
             b.enter(0, 0, 0, 0);
@@ -429,69 +486,109 @@ final class PuppetsPlayersCuesTest {
             b.move(0, 8, 9);
             b.leave(0, 15);
         };
-        checks.answers(ways, "strike(3)", b -> b.strike(3), 5);
-        checks.answers(ways, "strike(4)", b -> b.strike(4), 5);
-        checks.refuses(b -> {
-            ways.set(b);
+        checks.answersEach(ways, "the other ways are no longer: strike(#)", new int[] {1, 3, 4, 5},
+                CueBook::strike, 5);
+        checks.refuses(ways, "the next MOVE would be under way at the one behind it: strike(2)",
+                b -> b.strike(2), Checks.STATE);
+        checks.answers(ways.then(b -> b.strike(3)), "there is none behind it any more: strike(2)",
+                b -> b.strike(2), 4);
+        checks.refuses(ways.then(b -> {
             b.strike(3);
             b.strike(2);
-        }, "the next MOVE would still be under way at the LEAVE: strike(1)", b -> b.strike(1), STATE);
+        }), "the next MOVE would be under way at the LEAVE: strike(1)", b -> b.strike(1), Checks.STATE);
         Checks.Scene late = b -> {
             b.addPuppet(1, 1);
             b.enter(0, 0, 0, 0);
             b.move(0, 500, 15);
             b.move(0, 995, 19);
         };
-        checks.refuses(late, "the next MOVE would end behind 999: strike(1)", b -> b.strike(1), STATE);
+        checks.refuses(late, "the next MOVE would end behind 999: strike(1)", b -> b.strike(1), Checks.STATE);
         checks.answers(late, "strike(2)", b -> b.strike(2), 2);
-        Checks.Scene again = b -> {
-            walk(b);
-            b.enter(0, 30, 5, 0);
-        };
-        checks.refuses(again, "the LEAVE ahead of another ENTER: strike(2)", b -> b.strike(2), STATE);
     }
 
     private void count() {
-        checks.part("promise 9");
-        Checks.Scene scene = b -> {
-            walk(b);
+        doc.section("Promise 9: count");
+        Checks.Scene some = Scenes.WALK.then(b -> {
             b.strike(1);
-        };
-        int[] due = {2, 1, 3, 1};
-        for (int what = 0; what < 4; what++) {
-            int w = what;
-            checks.answers(scene, "count(" + w + ")", b -> b.count(w), due[w]);
+            Checks.outcome(b, c -> c.strike(1));
+            Checks.outcome(b, c -> c.enter(0, 10, 0, 0));
+        });
+        doc.says("- `what`: 0 puppets");
+        counted(0, 0, some, 2, 8);
+        doc.says(", 1 players");
+        counted(1, 0, some, 1, 5);
+        doc.says(", 2 cues that were written");
+        counted(2, 0, some, 3, 40);
+        checks.answers(ALL_BUT_ONE_STRUCK, "count(2)", b -> b.count(2), 40);
+        doc.says(", 3 of these those that were struck out");
+        counted(3, 0, some, 1, 0);
+        checks.answers(ALL_BUT_ONE_STRUCK, "count(3)", b -> b.count(3), 39);
+        checks.answers(ALL_BUT_ONE_STRUCK.then(b -> b.strike(0)), "count(3)", b -> b.count(3), 40);
+        doc.says("Returns how many there are.");
+        CueBook book = new CueBook();
+        book.addPuppet(1, 1);
+        book.enter(0, 0, 0, 0);
+        for (int i = 1; i < 40; i++) {
+            book.shift(0, i, 0);
+            if (i % 2 == 0) book.strike(i);
+            checks.same("count(2)", book.count(2), i + 1);
+            checks.same("count(3)", book.count(3), i / 2);
         }
-        for (int wrong : new int[] {-1, 4, FAR[0], FAR[1]}) {
-            checks.refuses(scene, "count(" + wrong + ")", b -> b.count(wrong), INDEX);
-        }
+        doc.says("Throws `IndexOutOfBoundsException` if what is not 0 to 3");
+        checks.refusesEach(Scenes.WALK, "count(#)", Checks.outside(0, 3), CueBook::count, Checks.INDEX);
+        checks.refusesEach(Scenes.EMPTY, "count(#)", Checks.outside(0, 3), CueBook::count, Checks.INDEX);
+    }
+
+    /** Of the empty book, of some book, and of the full one. */
+    private void counted(int what, int ofEmpty, Checks.Scene some, int ofSome, int ofFull) {
+        checks.answers(Scenes.EMPTY, "of the empty book: count(" + what + ")", b -> b.count(what), ofEmpty);
+        checks.answers(some, "count(" + what + ")", b -> b.count(what), ofSome);
+        checks.answers(Scenes.FULL, "of the full book: count(" + what + ")", b -> b.count(what), ofFull);
     }
 
     private void cue() {
-        checks.part("promise 10");
+        doc.section("Promise 10: cue");
         Checks.Scene scene = b -> {
-            walk(b);
+            b.addPuppet(1, 1);
+            b.addPuppet(1, 1);
             b.enter(1, 0, 19, 3);
-            b.shift(1, 7, 2);
-            b.strike(1);
+            b.move(1, 1, 0);
+            b.shift(1, 998, 2);
+            b.leave(1, 999);
+            b.enter(0, 999, 0, 0);
         };
-        int[][] due = {{0, 0, 10, 5, 1}, {}, {3, 0, 30, -1, -1}, {0, 1, 0, 19, 3}, {2, 1, 7, -1, 2}};
-        for (int cue = 0; cue < due.length; cue++) {
-            for (int what = 0; what < due[cue].length; what++) {
-                int c = cue;
-                int w = what;
-                checks.answers(scene, "cue(" + c + ", " + w + ")", b -> b.cue(c, w), due[c][w]);
+        doc.says("- `cue`: a cue");
+        checks.answersEach(Scenes.FULL, "the first and the last of the full book: cue(#, 1)", new int[] {0, 39},
+                (b, x) -> b.cue(x, 1) - 7 * x / 39, 0);
+        doc.says("- `what`: 0 its kind");
+        told(scene, 0, 0, 1, 2, 3, 0);
+        doc.says(", 1 its puppet");
+        told(scene, 1, 1, 1, 1, 1, 0);
+        doc.says(", 2 its beat");
+        told(scene, 2, 0, 1, 998, 999, 999);
+        doc.says(", 3 its place (of an ENTER or MOVE, else -1)");
+        told(scene, 3, 19, 0, -1, -1, 0);
+        doc.says(", 4 its track (of an ENTER or SHIFT, else -1)");
+        told(scene, 4, 3, -1, 2, -1, 0);
+        doc.says("Returns this.");
+        Checks.Scene struck = scene.then(b -> b.strike(1));
+        told(struck, 2, 0, null, 998, 999, 999);
+        doc.says("Throws `IndexOutOfBoundsException` if there is no such cue");
+        checks.refusesEach(scene, "cue(#, 0)", Checks.outside(0, 4), (b, x) -> b.cue(x, 0), Checks.INDEX);
+        checks.refusesEach(Scenes.FULL, "cue(#, 0)", Checks.outside(0, 39), (b, x) -> b.cue(x, 0), Checks.INDEX);
+        doc.says(", or it was struck out");
+        checks.refusesEach(struck, "cue(1, #)", new int[] {0, 1, 2, 3, 4}, (b, x) -> b.cue(1, x), Checks.INDEX);
+        doc.says(", or what is not 0 to 4");
+        checks.refusesEach(scene, "cue(0, #)", Checks.outside(0, 4), (b, x) -> b.cue(0, x), Checks.INDEX);
+    }
+
+    /** What cue() tells of each cue, from 0 on; null for one that was struck out. */
+    private void told(Checks.Scene scene, int what, Integer... due) {
+        for (int i = 0; i < due.length; i++) {
+            int cue = i;
+            if (due[i] != null) {
+                checks.answers(scene, "cue(" + cue + ", " + what + ")", b -> b.cue(cue, what), due[i]);
             }
-        }
-        int[] move = {1, 0, 12, 9, -1};
-        for (int what = 0; what < 5; what++) {
-            int w = what;
-            checks.answers(PuppetsPlayersCuesTest::walk, "cue(1, " + w + ")", b -> b.cue(1, w), move[w]);
-            checks.refuses(scene, "struck out: cue(1, " + w + ")", b -> b.cue(1, w), INDEX);
-        }
-        for (int wrong : new int[] {-1, 5, FAR[0], FAR[1]}) {
-            checks.refuses(scene, "cue(" + wrong + ", 0)", b -> b.cue(wrong, 0), INDEX);
-            checks.refuses(scene, "cue(0, " + wrong + ")", b -> b.cue(0, wrong), INDEX);
         }
     }
 }

@@ -4,10 +4,6 @@ import java.util.Random;
 final class RandomRunsTest {
     private static final int CALLS = 512;
 
-    interface Plain {
-        Object on(PlainBook book);
-    }
-
     private final Checks checks = new Checks();
     private Random random;
     private CueBook book;
@@ -55,14 +51,9 @@ final class RandomRunsTest {
         }
     }
 
-    private void both(String what, Checks.Call call, Plain plainCall) {
-        String due;
-        try {
-            due = String.valueOf(plainCall.on(plain));
-        } catch (RuntimeException e) {
-            due = "throws." + e.getClass().getSimpleName();
-        }
-        checks.same("seed " + seed + ": " + what, Checks.outcome(book, call), due);
+    private void both(String what, Checks.Call call, PlainBook.Call plainCall) {
+        checks.same("seed " + seed + ": " + what,
+                Checks.outcome(book, call), PlainBook.outcome(plain, plainCall));
     }
 
     private boolean seldom() {
