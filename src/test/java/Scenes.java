@@ -63,6 +63,17 @@ final class Scenes {
         }
     };
 
+    /** Two puppets that come in at beat 10 at places a and b, both on track 1; a third one does not. */
+    static Checks.Scene pair(int a, int b) {
+        return book -> {
+            book.addPuppet(1, 1);
+            book.addPuppet(1, 1);
+            book.addPuppet(1, 1);
+            book.enter(0, 10, a, 1);
+            book.enter(1, 10, b, 1);
+        };
+    }
+
     private Scenes() {
     }
 }

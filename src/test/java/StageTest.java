@@ -133,17 +133,6 @@ final class StageTest {
                 Checks.ARGUMENT);
     }
 
-    /** Two puppets that come in at beat 10 at places a and b, both on track 1. */
-    private static Checks.Scene pair(int a, int b) {
-        return book -> {
-            book.addPuppet(1, 1);
-            book.addPuppet(1, 1);
-            book.addPuppet(1, 1);
-            book.enter(0, 10, a, 1);
-            book.enter(1, 10, b, 1);
-        };
-    }
-
     private void clash(String what, Checks.Scene scene, int due) {
         checks.answers(scene, what + ": clash(0, 1)", b -> b.clash(0, 1), due);
         checks.answers(scene, what + ": clash(1, 0)", b -> b.clash(1, 0), due);
@@ -170,13 +159,13 @@ final class StageTest {
             b.enter(0, 0, 0, 0);
             b.enter(1, 0, 0, 0);
         }, 0);
-        clash("at beat 999", pair(4, 5).then(b -> b.move(0, 998, 5)), 999);
-        clash("twice", pair(4, 5).then(b -> {
+        clash("at beat 999", Scenes.pair(4, 5).then(b -> b.move(0, 998, 5)), 999);
+        clash("twice", Scenes.pair(4, 5).then(b -> {
             b.move(0, 20, 5);
             b.move(0, 30, 4);
             b.move(0, 40, 5);
         }), 21);
-        clash("ahead of a crossing", pair(4, 4).then(b -> {
+        clash("ahead of a crossing", Scenes.pair(4, 4).then(b -> {
             b.move(0, 20, 5);
             b.move(0, 30, 4);
             b.move(1, 30, 5);
@@ -190,30 +179,30 @@ final class StageTest {
             b.move(0, 0, 1);
             b.move(1, 0, 0);
         }, 0);
-        clash("at beats 998 and 999", pair(4, 5).then(b -> {
+        clash("at beats 998 and 999", Scenes.pair(4, 5).then(b -> {
             b.move(0, 998, 5);
             b.move(1, 998, 4);
         }), 998);
-        clash("ahead of another one", pair(4, 5).then(b -> {
+        clash("ahead of another one", Scenes.pair(4, 5).then(b -> {
             b.move(0, 20, 5);
             b.move(1, 20, 4);
             b.move(0, 30, 4);
             b.move(1, 30, 5);
         }), 20);
-        clash("ahead of being in each other's way", pair(4, 5).then(b -> {
+        clash("ahead of being in each other's way", Scenes.pair(4, 5).then(b -> {
             b.move(0, 20, 5);
             b.move(1, 20, 4);
             b.move(0, 30, 4);
         }), 20);
         doc.says("; -1 if there is none.");
-        clash("side by side", pair(4, 5), -1);
-        clash("side by side to the end", pair(4, 5).then(b -> b.move(0, 999, 4)), -1);
-        clash("one behind the other", pair(4, 4).then(b -> b.shift(1, 10, 0)), -1);
+        clash("side by side", Scenes.pair(4, 5), -1);
+        clash("side by side to the end", Scenes.pair(4, 5).then(b -> b.move(0, 999, 4)), -1);
+        clash("one behind the other", Scenes.pair(4, 4).then(b -> b.shift(1, 10, 0)), -1);
         clash("no cues", b -> {
             b.addPuppet(1, 1);
             b.addPuppet(1, 1);
         }, -1);
-        clash("the one that was in the way struck out", pair(4, 4).then(b -> b.strike(1)), -1);
+        clash("the one that was in the way struck out", Scenes.pair(4, 4).then(b -> b.strike(1)), -1);
     }
 
     private void clashRefused() {
@@ -240,7 +229,7 @@ final class StageTest {
                 b.enter(i, 5, 7, 2);
             }
         }, "all pairs of 8", CueBook::clashes, 28);
-        Checks.Scene three = pair(4, 4).then(b -> b.enter(2, 10, 6, 1));
+        Checks.Scene three = Scenes.pair(4, 4).then(b -> b.enter(2, 10, 6, 1));
         checks.answers(three, "one pair", CueBook::clashes, 1);
         checks.answers(three.then(b -> {
             b.clashes();
@@ -251,7 +240,7 @@ final class StageTest {
             b.clashes();
             b.strike(3);
         }), "a cue struck out, asked for the second time", CueBook::clashes, 1);
-        checks.answers(pair(4, 4).then(b -> {
+        checks.answers(Scenes.pair(4, 4).then(b -> {
             b.clashes();
             b.strike(0);
         }), "no clash is left", CueBook::clashes, 0);

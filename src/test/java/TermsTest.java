@@ -637,16 +637,6 @@ final class TermsTest {
         }
     }
 
-    /** Two puppets that come in at beat 10 at places a and b, both on track 1. */
-    private static Checks.Scene pair(int a, int b) {
-        return book -> {
-            book.addPuppet(1, 1);
-            book.addPuppet(1, 1);
-            book.enter(0, 10, a, 1);
-            book.enter(1, 10, b, 1);
-        };
-    }
-
     private void clash(String what, Checks.Scene scene, int due) {
         checks.answers(scene, what + ": clash(0, 1)", b -> b.clash(0, 1), due);
         checks.answers(scene, what + ": clash(1, 0)", b -> b.clash(1, 0), due);
@@ -655,15 +645,15 @@ final class TermsTest {
     private void inTheWay() {
         doc.says("Two puppets are in each other's way at a beat, if both are on stage, at the same place,"
                 + " on the same track.");
-        clash("at once", pair(4, 4), 10);
-        clash("the next place", pair(4, 5), -1);
-        clash("the next track", pair(4, 4).then(b -> b.shift(0, 10, 2)), -1);
-        clash("until it comes to the same track", pair(4, 4).then(b -> {
+        clash("at once", Scenes.pair(4, 4), 10);
+        clash("the next place", Scenes.pair(4, 5), -1);
+        clash("the next track", Scenes.pair(4, 4).then(b -> b.shift(0, 10, 2)), -1);
+        clash("until it comes to the same track", Scenes.pair(4, 4).then(b -> {
             b.shift(0, 10, 2);
             b.shift(1, 30, 2);
         }), 30);
-        clash("one walks to the other", pair(4, 6).then(b -> b.move(0, 20, 9)), 22);
-        clash("they walk together", pair(4, 5).then(b -> {
+        clash("one walks to the other", Scenes.pair(4, 6).then(b -> b.move(0, 20, 9)), 22);
+        clash("they walk together", Scenes.pair(4, 5).then(b -> {
             b.move(0, 20, 10);
             b.move(1, 20, 11);
         }), -1);
@@ -673,15 +663,15 @@ final class TermsTest {
             b.enter(0, 0, 0, 0);
         }, -1);
         clash("none is ever on stage", Scenes.ONE_PUPPET.then(Scenes.ONE_PUPPET), -1);
-        clash("one leaves at the beat at which the other comes", pair(4, 5).then(b -> {
+        clash("one leaves at the beat at which the other comes", Scenes.pair(4, 5).then(b -> {
             b.leave(0, 20);
             b.move(1, 19, 4);
         }), -1);
-        clash("one leaves a beat later", pair(4, 5).then(b -> {
+        clash("one leaves a beat later", Scenes.pair(4, 5).then(b -> {
             b.leave(0, 21);
             b.move(1, 19, 4);
         }), 20);
-        clash("one comes in where the other left a beat ago", pair(4, 7).then(b -> {
+        clash("one comes in where the other left a beat ago", Scenes.pair(4, 7).then(b -> {
             b.leave(0, 20);
             b.leave(1, 20);
             b.enter(1, 20, 4, 1);
@@ -697,16 +687,16 @@ final class TermsTest {
     private void crossing() {
         doc.says("They cross if, at a beat and at the next one, both are on the same track as each other"
                 + " (it can be another track then), at places that are exchanged in between.");
-        Checks.Scene exchange = pair(4, 5).then(b -> {
+        Checks.Scene exchange = Scenes.pair(4, 5).then(b -> {
             b.move(0, 20, 5);
             b.move(1, 20, 4);
         });
         clash("neighbouring places", exchange, 20);
-        clash("an odd distance", pair(4, 9).then(b -> {
+        clash("an odd distance", Scenes.pair(4, 9).then(b -> {
             b.move(0, 20, 9);
             b.move(1, 20, 4);
         }), 22);
-        clash("an even distance: they meet", pair(4, 8).then(b -> {
+        clash("an even distance: they meet", Scenes.pair(4, 8).then(b -> {
             b.move(0, 20, 8);
             b.move(1, 20, 4);
         }), 22);
@@ -719,32 +709,32 @@ final class TermsTest {
             b.shift(1, 21, 2);
         }), -1);
         clash("one changes the track in between", exchange.then(b -> b.shift(0, 21, 3)), -1);
-        clash("one comes to the track in between", pair(4, 5).then(b -> {
+        clash("one comes to the track in between", Scenes.pair(4, 5).then(b -> {
             b.shift(0, 15, 0);
             b.move(0, 20, 5);
             b.move(1, 20, 4);
             b.shift(0, 21, 1);
         }), -1);
-        clash("one goes to where the other was, which goes on", pair(4, 5).then(b -> {
+        clash("one goes to where the other was, which goes on", Scenes.pair(4, 5).then(b -> {
             b.move(0, 20, 5);
             b.move(1, 20, 6);
         }), -1);
-        clash("one goes to where the other was, which leaves", pair(4, 5).then(b -> {
+        clash("one goes to where the other was, which leaves", Scenes.pair(4, 5).then(b -> {
             b.move(0, 20, 5);
             b.leave(1, 21);
         }), -1);
-        clash("both leave, one comes in where the other was", pair(4, 5).then(b -> {
+        clash("both leave, one comes in where the other was", Scenes.pair(4, 5).then(b -> {
             b.leave(0, 21);
             b.leave(1, 21);
             b.enter(0, 21, 5, 1);
         }), -1);
-        clash("out and in at places that are exchanged", pair(4, 12).then(b -> {
+        clash("out and in at places that are exchanged", Scenes.pair(4, 12).then(b -> {
             b.leave(0, 20);
             b.leave(1, 20);
             b.enter(0, 20, 12, 0);
             b.enter(1, 20, 4, 0);
         }), 19);
-        clash("a beat between out and in", pair(4, 12).then(b -> {
+        clash("a beat between out and in", Scenes.pair(4, 12).then(b -> {
             b.leave(0, 20);
             b.leave(1, 20);
             b.enter(0, 21, 12, 0);
