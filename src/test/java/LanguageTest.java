@@ -10,6 +10,7 @@ import java.lang.reflect.Modifier;
 import java.nio.file.Files;
 import java.nio.file.Path;
 import java.util.ArrayList;
+import java.util.HashSet;
 import java.util.List;
 import java.util.Set;
 import java.util.TreeSet;
@@ -26,6 +27,15 @@ final class LanguageTest {
         "import (?!java\\.util\\.(ArrayList|Arrays);)"
     };
 
+    /** What of the library CueBook may call, of what rules 4 and 6 let it call. */
+    private static final Set<String> LIBRARY = Set.of(
+        "java.lang.Object.<init>", "java.lang.Math.abs", "java.util.Arrays.fill",
+        "java.util.ArrayList.<init>", "java.util.ArrayList.add", "java.util.ArrayList.clear",
+        "java.util.ArrayList.get", "java.util.ArrayList.isEmpty", "java.util.ArrayList.remove",
+        "java.util.ArrayList.set", "java.util.ArrayList.size",
+        "java.lang.IllegalArgumentException.<init>", "java.lang.IllegalStateException.<init>",
+        "java.lang.IndexOutOfBoundsException.<init>");
+
     /** 7.3 million fields and elements are some 29 million bytes; the dearest run stays far below. */
     private static final long MOST_BYTES = 2_000_000;
 
@@ -34,8 +44,11 @@ final class LanguageTest {
     public static void main(String[] args) {
         LanguageTest test = new LanguageTest();
         test.face();
-        test.staticFields();
+        test.classesInside();
+        test.fields();
+        test.usedOfTheLibrary();
         test.words();
+        test.sizes();
         test.room();
         test.checks.report("LanguageTest");
     }
@@ -124,13 +137,88 @@ final class LanguageTest {
         }
     }
 
-    private void staticFields() {
-        checks.part("rule 5");
-        for (Field field : CueBook.class.getDeclaredFields()) {
-            if (Modifier.isStatic(field.getModifiers())) {
-                checks.same(field + " is final", Modifier.isFinal(field.getModifiers()), true);
+    /** The class of the document, and those inside it. */
+    private static List<Class<?>> allClasses() {
+        List<Class<?>> all = new ArrayList<>(List.of(CueBook.class));
+        for (int i = 0; i < all.size(); i++) {
+            all.addAll(List.of(all.get(i).getDeclaredClasses()));
+        }
+        return all;
+    }
+
+    private void classesInside() {
+        checks.part("rules 1 and 2");
+        Set<String> face = new TreeSet<>();
+        for (Method method : CueBook.class.getMethods()) {
+            face.add(method.getName());
+        }
+        for (Class<?> inside : CueBook.class.getDeclaredClasses()) {
+            checks.same(inside + " is static", Modifier.isStatic(inside.getModifiers()), true);
+            for (Method method : inside.getDeclaredMethods()) {
+                checks.same(method + " has the name of a public one, or of Object's",
+                        face.contains(method.getName()), false);
             }
         }
+    }
+
+    private void fields() {
+        checks.part("rules 3 and 5");
+        Set<Class<?>> allowed = new HashSet<>(allClasses());
+        allowed.addAll(List.of(int.class, long.class, boolean.class, int[].class, ArrayList.class));
+        for (Class<?> owner : allClasses()) {
+            for (Field field : owner.getDeclaredFields()) {
+                checks.same(field + " is of a type that is allowed", allowed.contains(field.getType()), true);
+                if (Modifier.isStatic(field.getModifiers())) {
+                    checks.same(field + " is final", Modifier.isFinal(field.getModifiers()), true);
+                    checks.same(field + " is a plain constant", field.getType(), int.class);
+                }
+            }
+        }
+    }
+
+    private void usedOfTheLibrary() {
+        checks.part("rules 4, 6, 10 and 13");
+        for (Class<?> user : allClasses()) {
+            ClassFile file = new ClassFile(user);
+            checks.same(user + " has a lambda, or joins texts by +", file.hasDynamicCalls(), false);
+            for (String call : file.usedMembers()) {
+                boolean isOwn = call.startsWith("CueBook.") || call.startsWith("CueBook$");
+                checks.same(user + " uses " + call + ", which is its own or allowed",
+                        isOwn || LIBRARY.contains(call), true);
+            }
+        }
+    }
+
+    private void sizes() {
+        checks.part("rule 11");
+        checks.same("at most 12 classes", allClasses().size() <= 12, true);
+        for (Class<?> owner : allClasses()) {
+            int fields = 0;
+            for (Field field : owner.getDeclaredFields()) {
+                if (!Modifier.isStatic(field.getModifiers())) fields++;
+            }
+            checks.same(owner + " has at most 20 fields", fields <= 20, true);
+            List<Executable> bodies = new ArrayList<>(List.of(owner.getDeclaredMethods()));
+            bodies.addAll(List.of(owner.getDeclaredConstructors()));
+            for (Executable body : bodies) {
+                checks.same(body + " has at most 7 parameters", body.getParameterCount() <= 7, true);
+            }
+        }
+        checks.same("lines of the longest method, at most 60", longestMethod() <= 60, true);
+    }
+
+    /** From each closing brace where a method can end back to the line that began it. */
+    private static int longestMethod() {
+        String[] lines = source().split("\n");
+        int longest = 0;
+        for (int end = 0; end < lines.length; end++) {
+            Matcher closing = Pattern.compile("( {4}| {8})}").matcher(lines[end]);
+            if (!closing.matches()) continue;
+            int begin = end - 1;
+            while (!lines[begin].matches(closing.group(1) + "\\S.*")) begin--;
+            if (!lines[begin].contains(" class ")) longest = Math.max(longest, end - begin + 1);
+        }
+        return longest;
     }
 
     private void words() {
